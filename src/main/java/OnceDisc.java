@@ -1,0 +1,1490 @@
+/**
+ * A disc on which each block can be written once. The document is ../shared/DOC.md; the answers of
+ * the public methods are promised there, by the numbers that stand ahead of them here.
+ */
+public final class OnceDisc {
+    public static final int NONE = -1;
+
+    private static final int MAX_TEXT = 600;
+    private static final int APPENDED_BYTES = 20;
+    private static final int MAX_LETTERS = 8;
+    private static final int MAX_DIGITS = 3;
+    private static final int MIN_BLOCKS = 8;
+    private static final int MAX_BLOCKS = 96;
+    private static final int MAX_SPARE = 16;
+    private static final int MAX_FILES = 10;
+    private static final int MAX_SESSIONS = 12;
+    private static final int MAX_LENGTH = 8;
+    private static final int MAX_TAG = 999;
+    private static final int ENTRIES_IN_BLOCK = 4;
+    private static final int UNDO_DEPTH = 10;
+    private static final int SLOTS = 2;
+
+    private static final int EMPTY = 0;
+    private static final int DATA = 1;
+    private static final int DIRECTORY = 2;
+    private static final int FAILED = 3;
+
+    private static final int OPEN = 0;
+    private static final int CLOSED = 1;
+    private static final int LOST = 2;
+    private static final int RECOVERED = 3;
+
+    private static final int USE_EMPTY = 0;
+    private static final int USE_COUNTS = 1;
+    private static final int USE_HIDDEN = 2;
+    private static final int USE_DIRECTORY = 3;
+    private static final int USE_FAILED = 4;
+
+    private static final int ALLOWED = 0;
+    private static final int NOT_OPEN = 1;
+    private static final int NOTHING_TO_DO = 2;
+    private static final int TOO_MANY_SESSIONS = 3;
+    private static final int NO_ROOM = 4;
+    private static final int NO_SPARE = 5;
+
+    private static final int BAD_TOKEN = 1;
+    private static final int KNOWN_ALREADY = 2;
+    private static final int OUT_OF_RANGE = 3;
+    private static final int UNKNOWN_FILE = 4;
+    private static final int TOO_MANY_FILES = 5;
+    private static final int REFUSED = 6;
+
+    private static final int END_TOKEN = 0;
+    private static final int WORD_TOKEN = 1;
+    private static final int NUMBER_TOKEN = 2;
+    private static final int SEMICOLON_TOKEN = 3;
+    private static final int INVALID_TOKEN = 4;
+
+    private final Input input = new Input();
+    private final Parser parser = new Parser();
+    private final History history = new History();
+    private final Snapshots snapshots = new Snapshots();
+    private final View afterScratch = new View();
+    private Disc disc = new Disc();
+    // What parse builds; it changes places with disc when the text has no error.
+    private Disc draft = new Disc();
+
+    /** Promise 1. */
+    public OnceDisc() {
+        disc.format(MIN_BLOCKS, 0);
+    }
+
+    // ---- text
+
+    /** Promise 2. */
+    public int append(int a, int b, int c, int d, int e) {
+        if (!input.hasRoom(APPENDED_BYTES)) {
+            return NONE;
+        }
+        input.addBytes(a);
+        input.addBytes(b);
+        input.addBytes(c);
+        input.addBytes(d);
+        input.addBytes(e);
+        return input.used;
+    }
+
+    /** Promise 3. */
+    public int parse(int length) throws IllegalArgumentException {
+        checkRange(length, 0, input.used);
+        int code = parser.readText(input, length, draft);
+        input.used = 0;
+        if (code == 0) {
+            Disc old = disc;
+            disc = draft;
+            draft = old;
+            history.clear();
+            snapshots.clear();
+        }
+        return code;
+    }
+
+    /** Promise 4. */
+    public int errorPosition() {
+        return parser.position;
+    }
+
+    /** Promise 5. */
+    public int size(int what) throws IllegalArgumentException {
+        checkRange(what, 0, 12);
+        switch (what) {
+            case 0: return disc.blocks.count;
+            case 1: return disc.blocks.count - disc.blocks.main;
+            case 2: return disc.fileCount;
+            case 3: return disc.sessions.count;
+            case 4: return disc.blocks.next;
+            case 5: return disc.blocks.emptySpares();
+            case 6: return disc.blocks.badOnes();
+            case 7: return disc.look().filesThere();
+            case 8: return disc.look().filesReadable();
+            case 9: return oneIf(disc.sessions.isOpen());
+            case 10: return oneIf(disc.scan);
+            case 11: return history.count;
+            default: return disc.versions.count;
+        }
+    }
+
+    /** Promise 6. */
+    public int find() {
+        long name = input.nameAlone();
+        input.used = 0;
+        return name == NONE ? NONE : disc.fileNamed(name);
+    }
+
+    // ---- blocks, sessions, files
+
+    /** Promise 7. */
+    public int block(int block, int what) throws IndexOutOfBoundsException, IllegalArgumentException {
+        checkIndex(block, disc.blocks.count);
+        checkRange(what, 0, 6);
+        return disc.blocks.property(block, what);
+    }
+
+    /** Promise 8. */
+    public int place(int block) throws IndexOutOfBoundsException {
+        checkIndex(block, disc.blocks.count);
+        return disc.blocks.placeOf(block);
+    }
+
+    /** Promise 9. */
+    public int session(int session, int what) throws IndexOutOfBoundsException, IllegalArgumentException {
+        checkIndex(session, disc.sessions.count);
+        checkRange(what, 0, 8);
+        Sessions sessions = disc.sessions;
+        switch (what) {
+            case 0: return sessions.stateOf(session);
+            case 1: return sessions.firstOf(session);
+            case 2: return disc.blocks.mainBlocksOf(session);
+            case 3: return sessions.entriesOf(session);
+            case 4: return sessions.directoryOf(session);
+            case 5: return oneIf(disc.canReadDirectory(session));
+            case 6: return sessions.linkOf(session);
+            case 7: return oneIf(disc.look().isReached(session));
+            default: return disc.blocks.spareBlocksOf(session);
+        }
+    }
+
+    /** Promise 10. */
+    public int entry(int session, int k, int part) throws IndexOutOfBoundsException, IllegalArgumentException {
+        checkIndex(session, disc.sessions.count);
+        checkRange(part, 0, 4);
+        int slot = disc.sessions.slotAt(session, k);
+        if (slot == NONE) {
+            return NONE;
+        }
+        int version = disc.sessions.versionIn(slot);
+        switch (part) {
+            case 0: return disc.sessions.fileIn(slot);
+            case 1: return version;
+            case 2: return disc.versions.firstOf(version);
+            case 3: return disc.versions.lengthOf(version);
+            default: return disc.versions.tagOf(version);
+        }
+    }
+
+    /** Promise 11. */
+    public int file(int file, int what) throws IndexOutOfBoundsException, IllegalArgumentException {
+        checkIndex(file, disc.fileCount);
+        checkRange(what, 0, 6);
+        View view = disc.look();
+        int version = view.versionOf(file);
+        switch (what) {
+            case 0: return oneIf(version != NONE);
+            case 1: return oneIf(view.isReadable(file));
+            case 2: return version;
+            case 3: return disc.versions.lengthOf(version);
+            case 4: return disc.versions.tagOf(version);
+            case 5: return view.sessionOf(file);
+            default: return disc.versions.countOf(file);
+        }
+    }
+
+    /** Promise 12. */
+    public int where(int file, int k) throws IndexOutOfBoundsException {
+        checkIndex(file, disc.fileCount);
+        int version = disc.look().versionOf(file);
+        if (k < 0 || k >= disc.versions.lengthOf(version)) {
+            return NONE;
+        }
+        return disc.blocks.placeOf(disc.versions.firstOf(version) + k);
+    }
+
+    /** Promise 13. */
+    public int defect(int k, boolean spare) {
+        int relocated = disc.relocatedBlock(k);
+        if (relocated == NONE || !spare) {
+            return relocated;
+        }
+        return disc.blocks.placeOf(relocated);
+    }
+
+    // ---- what would be; nothing changes
+
+    /** Promise 14. */
+    public int whyNotWrite(int file, int length) throws IndexOutOfBoundsException, IllegalArgumentException {
+        checkIndex(file, disc.fileCount);
+        checkRange(length, 1, MAX_LENGTH);
+        return disc.reasonAgainstWrite(file, length);
+    }
+
+    /** Promise 15. */
+    public int whyNot(int what) throws IllegalArgumentException {
+        checkRange(what, 0, 2);
+        switch (what) {
+            case 0: return disc.reasonAgainstClose();
+            case 1: return disc.reasonAgainstCrash();
+            default: return disc.reasonAgainstRecover();
+        }
+    }
+
+    /** Promise 16. */
+    public int couldRecover() {
+        return disc.recoverableVersions();
+    }
+
+    /** Promise 17. */
+    public int risk(int block) throws IndexOutOfBoundsException {
+        checkIndex(block, disc.blocks.count);
+        return disc.filesLostBy(block, disc.look(), afterScratch);
+    }
+
+    /** Promise 18. */
+    public int weakest() {
+        View now = disc.look();
+        int found = 0;
+        int greatest = 0;
+        for (int block = 0; block < disc.blocks.count; block++) {
+            int lost = disc.filesLostBy(block, now, afterScratch);
+            if (lost > greatest) {
+                greatest = lost;
+                found = block;
+            }
+        }
+        return found;
+    }
+
+    /** Promise 19. */
+    public int filesBefore(int session) throws IndexOutOfBoundsException {
+        checkIndex(session, disc.sessions.count);
+        return disc.look().filesThereBefore(disc, session);
+    }
+
+    // ---- space
+
+    /** Promise 20. */
+    public int space(int use) throws IllegalArgumentException {
+        checkRange(use, USE_EMPTY, USE_FAILED);
+        return disc.blocksUsed(NONE, use);
+    }
+
+    /** Promise 21. */
+    public int spaceOf(int session, int use) throws IndexOutOfBoundsException, IllegalArgumentException {
+        checkIndex(session, disc.sessions.count);
+        checkRange(use, USE_COUNTS, USE_FAILED);
+        return disc.blocksUsed(session, use);
+    }
+
+    /** Promise 22. */
+    public double share() {
+        int written = disc.blocks.count - disc.blocksUsed(NONE, USE_EMPTY);
+        if (written <= 0) {
+            return 1.0;
+        }
+        return (double) disc.blocksUsed(NONE, USE_COUNTS) / (double) written;
+    }
+
+    // ---- changes
+
+    /** Promise 23. */
+    public int write(int file, int length, int tag)
+            throws IndexOutOfBoundsException, IllegalArgumentException, IllegalStateException {
+        checkIndex(file, disc.fileCount);
+        checkRange(length, 1, MAX_LENGTH);
+        checkRange(tag, 0, MAX_TAG);
+        checkAllowed(disc.reasonAgainstWrite(file, length));
+        history.keep(disc);
+        return disc.writeVersion(file, length, tag);
+    }
+
+    /** Promise 24. */
+    public int erase(int file) throws IndexOutOfBoundsException, IllegalStateException {
+        checkIndex(file, disc.fileCount);
+        checkAllowed(disc.reasonAgainstErase(file));
+        history.keep(disc);
+        disc.eraseFile(file);
+        return disc.look().filesThere();
+    }
+
+    /** Promise 25. */
+    public int close() throws IllegalStateException {
+        checkAllowed(disc.reasonAgainstClose());
+        history.keep(disc);
+        return disc.closeSession();
+    }
+
+    /** Promise 26. */
+    public int crash() throws IllegalStateException {
+        checkAllowed(disc.reasonAgainstCrash());
+        history.keep(disc);
+        return disc.loseSession();
+    }
+
+    /** Promise 27. */
+    public int recover() throws IllegalStateException {
+        checkAllowed(disc.reasonAgainstRecover());
+        history.keep(disc);
+        return disc.recoverSession();
+    }
+
+    /** Promise 28. */
+    public boolean scratch(int block) throws IndexOutOfBoundsException {
+        checkIndex(block, disc.blocks.count);
+        history.keep(disc);
+        return disc.blocks.damage(block);
+    }
+
+    /** Promise 29. */
+    public boolean setScan(boolean scan) {
+        history.keep(disc);
+        boolean before = disc.scan;
+        disc.scan = scan;
+        return before;
+    }
+
+    // ---- undo and snapshots
+
+    /** Promise 30. */
+    public int undo() {
+        return history.bringBack(disc) ? history.count : NONE;
+    }
+
+    /** Promise 31. */
+    public boolean saveSnapshot(int slot) throws IndexOutOfBoundsException {
+        checkIndex(slot, SLOTS);
+        boolean before = snapshots.isStored(slot);
+        snapshots.store(slot, disc);
+        return before;
+    }
+
+    /** Promise 32. */
+    public int restoreSnapshot(int slot) throws IndexOutOfBoundsException, IllegalStateException {
+        checkIndex(slot, SLOTS);
+        if (!snapshots.isStored(slot)) {
+            throw new IllegalStateException("the slot is empty");
+        }
+        snapshots.load(slot, disc);
+        history.clear();
+        return disc.sessions.count;
+    }
+
+    // ---- checks
+
+    private static void checkIndex(int index, int count) {
+        if (index < 0 || index >= count) {
+            throw new IndexOutOfBoundsException("there is no such block, file, session or slot");
+        }
+    }
+
+    private static void checkRange(int value, int least, int greatest) {
+        if (value < least || value > greatest) {
+            throw new IllegalArgumentException("an argument is out of its range");
+        }
+    }
+
+    private static void checkAllowed(int reason) {
+        if (reason != ALLOWED) {
+            throw new IllegalStateException("this is refused now");
+        }
+    }
+
+    private static int oneIf(boolean condition) {
+        return condition ? 1 : 0;
+    }
+
+    // ---- rows
+
+    /** The element of a row, or another answer where the row has no such index. */
+    private static int at(int[] row, int index, int otherwise) {
+        return index >= 0 && index < row.length ? row[index] : otherwise;
+    }
+
+    private static boolean isSet(boolean[] row, int index) {
+        return index >= 0 && index < row.length && row[index];
+    }
+
+    private static void put(int[] row, int index, int value) {
+        if (index >= 0 && index < row.length) {
+            row[index] = value;
+        }
+    }
+
+    private static void mark(boolean[] row, int index, boolean value) {
+        if (index >= 0 && index < row.length) {
+            row[index] = value;
+        }
+    }
+
+    private static void fill(int[] row, int value) {
+        for (int i = 0; i < row.length; i++) {
+            row[i] = value;
+        }
+    }
+
+    private static void fill(boolean[] row, boolean value) {
+        for (int i = 0; i < row.length; i++) {
+            row[i] = value;
+        }
+    }
+
+    private static void copy(int[] from, int[] to) {
+        for (int i = 0; i < from.length && i < to.length; i++) {
+            to[i] = from[i];
+        }
+    }
+
+    private static void copy(boolean[] from, boolean[] to) {
+        for (int i = 0; i < from.length && i < to.length; i++) {
+            to[i] = from[i];
+        }
+    }
+
+    private static void copy(long[] from, long[] to) {
+        for (int i = 0; i < from.length && i < to.length; i++) {
+            to[i] = from[i];
+        }
+    }
+
+    /** The input buffer. */
+    private static final class Input {
+        final int[] bytes = new int[MAX_TEXT];
+        int used = 0;
+
+        boolean hasRoom(int more) {
+            return used + more <= MAX_TEXT;
+        }
+
+        void addBytes(int four) {
+            addByte(four >>> 24);
+            addByte(four >>> 16);
+            addByte(four >>> 8);
+            addByte(four);
+        }
+
+        private void addByte(int value) {
+            put(bytes, used, value & 255);
+            used++;
+        }
+
+        int byteAt(int index) {
+            return at(bytes, index, NONE);
+        }
+
+        boolean hasLetterAt(int index) {
+            int value = byteAt(index);
+            return value >= 'a' && value <= 'z';
+        }
+
+        boolean hasDigitAt(int index) {
+            int value = byteAt(index);
+            return value >= '0' && value <= '9';
+        }
+
+        /** A number that no other word of 1 to 8 letters has: the letters as digits 1 to 26, to the base 27. */
+        long wordBetween(int start, int end) {
+            long word = 0;
+            for (int i = start; i < end && i < start + MAX_LETTERS; i++) {
+                word = word * 27 + (byteAt(i) - 'a' + 1);
+            }
+            return word;
+        }
+
+        /** The only word of the buffer, if spaces stand behind it and nothing else stands in it. */
+        long nameAlone() {
+            int end = 0;
+            while (end < used && hasLetterAt(end)) {
+                end++;
+            }
+            for (int i = end; i < used; i++) {
+                if (byteAt(i) != ' ') {
+                    return NONE;
+                }
+            }
+            return end >= 1 && end <= MAX_LETTERS ? wordBetween(0, end) : NONE;
+        }
+    }
+
+    /** All blocks. Each row has an element for every block that the largest disc can have. */
+    private static final class Blocks {
+        int count = 0;
+        int main = 0;
+        int next = 0;
+        final int[] kinds = new int[MAX_BLOCKS];
+        final boolean[] bad = new boolean[MAX_BLOCKS];
+        final boolean[] unreadable = new boolean[MAX_BLOCKS];
+        final int[] writers = new int[MAX_BLOCKS];
+        final int[] versions = new int[MAX_BLOCKS];
+        final int[] numbers = new int[MAX_BLOCKS];
+        final int[] insteadOf = new int[MAX_BLOCKS];
+        final int[] places = new int[MAX_BLOCKS];
+
+        void format(int blocks, int spare) {
+            count = blocks;
+            main = blocks - spare;
+            next = 0;
+            fill(kinds, EMPTY);
+            fill(bad, false);
+            fill(unreadable, false);
+            fill(writers, NONE);
+            fill(versions, NONE);
+            fill(numbers, NONE);
+            fill(insteadOf, NONE);
+            fill(places, NONE);
+        }
+
+        void takeFrom(Blocks other) {
+            count = other.count;
+            main = other.main;
+            next = other.next;
+            copy(other.kinds, kinds);
+            copy(other.bad, bad);
+            copy(other.unreadable, unreadable);
+            copy(other.writers, writers);
+            copy(other.versions, versions);
+            copy(other.numbers, numbers);
+            copy(other.insteadOf, insteadOf);
+            copy(other.places, places);
+        }
+
+        int kindOf(int block) {
+            return at(kinds, block, EMPTY);
+        }
+
+        int writerOf(int block) {
+            return at(writers, block, NONE);
+        }
+
+        int dataVersionOf(int block) {
+            return at(versions, block, NONE);
+        }
+
+        int placeOf(int block) {
+            return at(places, block, NONE);
+        }
+
+        boolean isBad(int block) {
+            return isSet(bad, block);
+        }
+
+        boolean isUnreadable(int block) {
+            return isSet(unreadable, block);
+        }
+
+        int property(int block, int what) {
+            switch (what) {
+                case 0: return kindOf(block);
+                case 1: return oneIf(isBad(block));
+                case 2: return oneIf(isUnreadable(block));
+                case 3: return writerOf(block);
+                case 4: return dataVersionOf(block);
+                case 5: return at(numbers, block, NONE);
+                default: return at(insteadOf, block, NONE);
+            }
+        }
+
+        int emptySpares() {
+            int found = 0;
+            for (int block = main; block < count; block++) {
+                found += oneIf(kindOf(block) == EMPTY);
+            }
+            return found;
+        }
+
+        int badOnes() {
+            int found = 0;
+            for (int block = 0; block < count; block++) {
+                found += oneIf(isBad(block));
+            }
+            return found;
+        }
+
+        int mainBlocksOf(int session) {
+            return blocksOf(session, 0, main);
+        }
+
+        int spareBlocksOf(int session) {
+            return blocksOf(session, main, count);
+        }
+
+        private int blocksOf(int session, int from, int to) {
+            int found = 0;
+            for (int block = from; block < to; block++) {
+                found += oneIf(writerOf(block) == session);
+            }
+            return found;
+        }
+
+        boolean hasRoomFor(int length) {
+            return next + length <= main;
+        }
+
+        /** Whether there are enough good spare blocks for the bad ones among those that would be written. */
+        boolean canRelocate(int length) {
+            int needed = 0;
+            for (int block = next; block < next + length && block < main; block++) {
+                needed += oneIf(isBad(block));
+            }
+            int good = 0;
+            for (int block = main; block < count; block++) {
+                good += oneIf(kindOf(block) == EMPTY && !isBad(block));
+            }
+            return needed <= good;
+        }
+
+        /** Writes the block at next; the version is NONE for a part of a directory. */
+        void writeNext(int kind, int session, int version, int number) {
+            int block = next;
+            next++;
+            int taken = block;
+            if (isBad(block)) {
+                put(kinds, block, FAILED);
+                put(writers, block, session);
+                taken = takeSpare(session);
+                put(insteadOf, taken, block);
+            }
+            put(places, block, taken);
+            put(kinds, taken, kind);
+            put(writers, taken, session);
+            put(versions, taken, version);
+            put(numbers, taken, number);
+        }
+
+        /** The first empty spare block that is good; those ahead of it fail. */
+        private int takeSpare(int session) {
+            for (int block = main; block < count; block++) {
+                if (kindOf(block) == EMPTY) {
+                    if (!isBad(block)) {
+                        return block;
+                    }
+                    put(kinds, block, FAILED);
+                    put(writers, block, session);
+                }
+            }
+            return NONE;
+        }
+
+        boolean canRead(int first, int length) {
+            for (int block = first; block < first + length && block < main; block++) {
+                if (isUnreadable(placeOf(block))) {
+                    return false;
+                }
+            }
+            return true;
+        }
+
+        boolean damage(int block) {
+            boolean[] damaged = kindOf(block) == EMPTY ? bad : unreadable;
+            boolean before = isSet(damaged, block);
+            mark(damaged, block, true);
+            return !before;
+        }
+    }
+
+    /** All versions, in the order in which they were written. */
+    private static final class Versions {
+        int count = 0;
+        final int[] files = new int[MAX_BLOCKS];
+        final int[] firsts = new int[MAX_BLOCKS];
+        final int[] lengths = new int[MAX_BLOCKS];
+        final int[] tags = new int[MAX_BLOCKS];
+        final int[] writers = new int[MAX_BLOCKS];
+
+        void takeFrom(Versions other) {
+            count = other.count;
+            copy(other.files, files);
+            copy(other.firsts, firsts);
+            copy(other.lengths, lengths);
+            copy(other.tags, tags);
+            copy(other.writers, writers);
+        }
+
+        int add(int file, int first, int length, int tag, int session) {
+            int version = count;
+            count++;
+            put(files, version, file);
+            put(firsts, version, first);
+            put(lengths, version, length);
+            put(tags, version, tag);
+            put(writers, version, session);
+            return version;
+        }
+
+        int fileOf(int version) {
+            return at(files, version, NONE);
+        }
+
+        int firstOf(int version) {
+            return at(firsts, version, NONE);
+        }
+
+        int lengthOf(int version) {
+            return at(lengths, version, 0);
+        }
+
+        int tagOf(int version) {
+            return at(tags, version, NONE);
+        }
+
+        int writerOf(int version) {
+            return at(writers, version, NONE);
+        }
+
+        int countOf(int file) {
+            int found = 0;
+            for (int version = 0; version < count; version++) {
+                found += oneIf(fileOf(version) == file);
+            }
+            return found;
+        }
+    }
+
+    /** All sessions. The entry k of a session stands in the rows of entries at the slot session * MAX_FILES + k. */
+    private static final class Sessions {
+        int count = 0;
+        final int[] states = new int[MAX_SESSIONS];
+        final int[] firsts = new int[MAX_SESSIONS];
+        final int[] directories = new int[MAX_SESSIONS];
+        final int[] entries = new int[MAX_SESSIONS];
+        final int[] entryFiles = new int[MAX_SESSIONS * MAX_FILES];
+        final int[] entryVersions = new int[MAX_SESSIONS * MAX_FILES];
+
+        void takeFrom(Sessions other) {
+            count = other.count;
+            copy(other.states, states);
+            copy(other.firsts, firsts);
+            copy(other.directories, directories);
+            copy(other.entries, entries);
+            copy(other.entryFiles, entryFiles);
+            copy(other.entryVersions, entryVersions);
+        }
+
+        int latest() {
+            return count - 1;
+        }
+
+        boolean isOpen() {
+            return stateOf(latest()) == OPEN;
+        }
+
+        boolean latestIsLost() {
+            return stateOf(latest()) == LOST;
+        }
+
+        boolean oneMoreIsTooMany() {
+            return !isOpen() && count >= MAX_SESSIONS;
+        }
+
+        int stateOf(int session) {
+            return session < count ? at(states, session, NONE) : NONE;
+        }
+
+        int firstOf(int session) {
+            return at(firsts, session, NONE);
+        }
+
+        int directoryOf(int session) {
+            return at(directories, session, NONE);
+        }
+
+        int entriesOf(int session) {
+            return at(entries, session, 0);
+        }
+
+        int fileIn(int slot) {
+            return at(entryFiles, slot, NONE);
+        }
+
+        int versionIn(int slot) {
+            return at(entryVersions, slot, NONE);
+        }
+
+        void begin(int first) {
+            int session = count;
+            count++;
+            put(states, session, OPEN);
+            put(firsts, session, first);
+            put(directories, session, NONE);
+            put(entries, session, 0);
+        }
+
+        int slotAt(int session, int k) {
+            return k >= 0 && k < entriesOf(session) ? session * MAX_FILES + k : NONE;
+        }
+
+        int slotOfFile(int session, int file) {
+            for (int k = 0; k < entriesOf(session); k++) {
+                if (fileIn(slotAt(session, k)) == file) {
+                    return slotAt(session, k);
+                }
+            }
+            return NONE;
+        }
+
+        /** Puts an entry into the open session; the version is NONE if the file is erased. */
+        void enter(int file, int version) {
+            int slot = slotOfFile(latest(), file);
+            if (slot == NONE) {
+                put(entries, latest(), entriesOf(latest()) + 1);
+                slot = slotAt(latest(), entriesOf(latest()) - 1);
+            }
+            put(entryFiles, slot, file);
+            put(entryVersions, slot, version);
+        }
+
+        /** The entries that the session has, open now or begun for it, when a file has come into it. */
+        int entriesWith(int file) {
+            if (!isOpen()) {
+                return 1;
+            }
+            return entriesOf(latest()) + oneIf(slotOfFile(latest(), file) == NONE);
+        }
+
+        void markClosed(int directory) {
+            put(states, latest(), CLOSED);
+            put(directories, latest(), directory);
+        }
+
+        void markLost() {
+            put(states, latest(), LOST);
+            put(entries, latest(), 0);
+        }
+
+        int linkOf(int session) {
+            if (directoryOf(session) == NONE) {
+                return NONE;
+            }
+            for (int earlier = session - 1; earlier >= 0; earlier--) {
+                if (stateOf(earlier) == CLOSED) {
+                    return earlier;
+                }
+            }
+            return NONE;
+        }
+    }
+
+    /** What a disc shows: the sessions that are reached, and the entry of each file that counts. */
+    private static final class View {
+        private int fileCount = 0;
+        private final boolean[] reached = new boolean[MAX_SESSIONS];
+        private final int[] sessions = new int[MAX_FILES];
+        private final int[] versions = new int[MAX_FILES];
+        private final boolean[] readable = new boolean[MAX_FILES];
+
+        void update(Disc disc) {
+            fileCount = disc.fileCount;
+            markReached(disc);
+            for (int file = 0; file < fileCount; file++) {
+                int session = sessionThatCounts(disc.sessions, file, disc.sessions.count);
+                int version = disc.sessions.versionIn(disc.sessions.slotOfFile(session, file));
+                put(sessions, file, session);
+                put(versions, file, version);
+                mark(readable, file, version != NONE && disc.canReadVersion(version));
+            }
+        }
+
+        private void markReached(Disc disc) {
+            boolean searching = true;
+            for (int session = disc.sessions.latest(); session >= 0; session--) {
+                int state = disc.sessions.stateOf(session);
+                boolean found = state == OPEN;
+                if (state == CLOSED && searching) {
+                    found = disc.canReadDirectory(session);
+                    searching = found || disc.scan;
+                }
+                mark(reached, session, found);
+            }
+        }
+
+        /** The latest session that is reached, is numbered lower than end and has an entry of the file. */
+        private int sessionThatCounts(Sessions all, int file, int end) {
+            for (int session = end - 1; session >= 0; session--) {
+                if (isReached(session) && all.slotOfFile(session, file) != NONE) {
+                    return session;
+                }
+            }
+            return NONE;
+        }
+
+        boolean isReached(int session) {
+            return isSet(reached, session);
+        }
+
+        int sessionOf(int file) {
+            return at(sessions, file, NONE);
+        }
+
+        int versionOf(int file) {
+            return at(versions, file, NONE);
+        }
+
+        boolean isReadable(int file) {
+            return isSet(readable, file);
+        }
+
+        int filesThere() {
+            int found = 0;
+            for (int file = 0; file < fileCount; file++) {
+                found += oneIf(versionOf(file) != NONE);
+            }
+            return found;
+        }
+
+        int filesReadable() {
+            int found = 0;
+            for (int file = 0; file < fileCount; file++) {
+                found += oneIf(isReadable(file));
+            }
+            return found;
+        }
+
+        int filesThereBefore(Disc disc, int end) {
+            int found = 0;
+            for (int file = 0; file < fileCount; file++) {
+                int session = sessionThatCounts(disc.sessions, file, end);
+                int slot = disc.sessions.slotOfFile(session, file);
+                found += oneIf(disc.sessions.versionIn(slot) != NONE);
+            }
+            return found;
+        }
+    }
+
+    /** Everything that changes can change, and what a text describes besides. */
+    private static final class Disc {
+        final Blocks blocks = new Blocks();
+        final Versions versions = new Versions();
+        final Sessions sessions = new Sessions();
+        int fileCount = 0;
+        private final long[] names = new long[MAX_FILES];
+        boolean scan = false;
+        private final View view = new View();
+
+        void format(int blockCount, int spareCount) {
+            blocks.format(blockCount, spareCount);
+            versions.count = 0;
+            sessions.count = 0;
+            fileCount = 0;
+            scan = false;
+        }
+
+        void takeFrom(Disc other) {
+            blocks.takeFrom(other.blocks);
+            versions.takeFrom(other.versions);
+            sessions.takeFrom(other.sessions);
+            fileCount = other.fileCount;
+            copy(other.names, names);
+            scan = other.scan;
+        }
+
+        View look() {
+            view.update(this);
+            return view;
+        }
+
+        boolean hasAllFiles() {
+            return fileCount >= MAX_FILES;
+        }
+
+        void addFile(long name) {
+            if (fileCount < names.length) {
+                names[fileCount] = name;
+                fileCount++;
+            }
+        }
+
+        int fileNamed(long name) {
+            for (int file = 0; file < fileCount && file < names.length; file++) {
+                if (names[file] == name) {
+                    return file;
+                }
+            }
+            return NONE;
+        }
+
+        boolean canReadVersion(int version) {
+            return blocks.canRead(versions.firstOf(version), versions.lengthOf(version));
+        }
+
+        boolean canReadDirectory(int session) {
+            int directory = sessions.directoryOf(session);
+            return directory != NONE && blocks.canRead(directory, directoryLength(sessions.entriesOf(session)));
+        }
+
+        private static int directoryLength(int entries) {
+            return 1 + (entries - 1) / ENTRIES_IN_BLOCK;
+        }
+
+        /** The block k of those that were relocated, except by a session that is lost and not recovered. */
+        int relocatedBlock(int k) {
+            int before = 0;
+            for (int block = 0; k >= 0 && block < blocks.main; block++) {
+                if (blocks.kindOf(block) == FAILED && sessions.stateOf(blocks.writerOf(block)) != LOST) {
+                    if (before == k) {
+                        return block;
+                    }
+                    before++;
+                }
+            }
+            return NONE;
+        }
+
+        /** How many files that are readable in the view would not be so after a scratch. */
+        int filesLostBy(int block, View now, View after) {
+            if (blocks.kindOf(block) == EMPTY || blocks.isUnreadable(block)) {
+                return 0;
+            }
+            mark(blocks.unreadable, block, true);
+            after.update(this);
+            mark(blocks.unreadable, block, false);
+            int lost = 0;
+            for (int file = 0; file < fileCount; file++) {
+                lost += oneIf(now.isReadable(file) && !after.isReadable(file));
+            }
+            return lost;
+        }
+
+        /** The blocks of a use that a session wrote, or of the whole disc if the session is NONE. */
+        int blocksUsed(int session, int use) {
+            View now = look();
+            int found = 0;
+            for (int block = 0; block < blocks.count; block++) {
+                boolean asked = session == NONE || blocks.writerOf(block) == session;
+                found += oneIf(asked && useOf(block, now) == use);
+            }
+            return found;
+        }
+
+        private int useOf(int block, View now) {
+            switch (blocks.kindOf(block)) {
+                case EMPTY: return USE_EMPTY;
+                case DIRECTORY: return USE_DIRECTORY;
+                case FAILED: return USE_FAILED;
+                default: break;
+            }
+            int version = blocks.dataVersionOf(block);
+            return now.versionOf(versions.fileOf(version)) == version ? USE_COUNTS : USE_HIDDEN;
+        }
+
+        // ---- reasons
+
+        int reasonAgainstWrite(int file, int length) {
+            if (sessions.oneMoreIsTooMany()) {
+                return TOO_MANY_SESSIONS;
+            }
+            if (!blocks.hasRoomFor(length + directoryLength(sessions.entriesWith(file)))) {
+                return NO_ROOM;
+            }
+            return blocks.canRelocate(length) ? ALLOWED : NO_SPARE;
+        }
+
+        int reasonAgainstErase(int file) {
+            if (look().versionOf(file) == NONE) {
+                return NOTHING_TO_DO;
+            }
+            if (sessions.oneMoreIsTooMany()) {
+                return TOO_MANY_SESSIONS;
+            }
+            return blocks.hasRoomFor(directoryLength(sessions.entriesWith(file))) ? ALLOWED : NO_ROOM;
+        }
+
+        int reasonAgainstClose() {
+            if (!sessions.isOpen()) {
+                return NOT_OPEN;
+            }
+            return reasonAgainstDirectory(sessions.entriesOf(sessions.latest()));
+        }
+
+        int reasonAgainstCrash() {
+            return sessions.isOpen() ? ALLOWED : NOT_OPEN;
+        }
+
+        int reasonAgainstRecover() {
+            int entries = recoverableVersions();
+            if (entries == 0) {
+                return NOTHING_TO_DO;
+            }
+            return sessions.oneMoreIsTooMany() ? TOO_MANY_SESSIONS : reasonAgainstDirectory(entries);
+        }
+
+        private int reasonAgainstDirectory(int entries) {
+            int length = directoryLength(entries);
+            if (!blocks.hasRoomFor(length)) {
+                return NO_ROOM;
+            }
+            return blocks.canRelocate(length) ? ALLOWED : NO_SPARE;
+        }
+
+        // ---- changes, which are done only if no reason is against them
+
+        int writeVersion(int file, int length, int tag) {
+            beginIfNeeded();
+            int session = sessions.latest();
+            int version = versions.add(file, blocks.next, length, tag, session);
+            for (int number = 0; number < length; number++) {
+                blocks.writeNext(DATA, session, version, number);
+            }
+            sessions.enter(file, version);
+            return version;
+        }
+
+        void eraseFile(int file) {
+            beginIfNeeded();
+            sessions.enter(file, NONE);
+        }
+
+        private void beginIfNeeded() {
+            if (!sessions.isOpen()) {
+                sessions.begin(blocks.next);
+            }
+        }
+
+        int closeSession() {
+            int session = sessions.latest();
+            int directory = blocks.next;
+            int length = directoryLength(sessions.entriesOf(session));
+            for (int number = 0; number < length; number++) {
+                blocks.writeNext(DIRECTORY, session, NONE, number);
+            }
+            sessions.markClosed(directory);
+            return session;
+        }
+
+        int loseSession() {
+            sessions.markLost();
+            return blocks.mainBlocksOf(sessions.latest());
+        }
+
+        int recoverSession() {
+            int lost = sessions.latest();
+            put(sessions.states, lost, RECOVERED);
+            sessions.begin(blocks.next);
+            for (int version = 0; version < versions.count; version++) {
+                if (isRecoverable(version, lost)) {
+                    sessions.enter(versions.fileOf(version), version);
+                }
+            }
+            closeSession();
+            return sessions.entriesOf(sessions.latest());
+        }
+
+        int recoverableVersions() {
+            int found = 0;
+            for (int version = 0; sessions.latestIsLost() && version < versions.count; version++) {
+                found += oneIf(isRecoverable(version, sessions.latest()));
+            }
+            return found;
+        }
+
+        /** Whether a version is the latest readable one of its file that the lost session wrote. */
+        private boolean isRecoverable(int version, int lost) {
+            if (!isReadableOf(version, lost)) {
+                return false;
+            }
+            for (int later = version + 1; later < versions.count; later++) {
+                if (versions.fileOf(later) == versions.fileOf(version) && isReadableOf(later, lost)) {
+                    return false;
+                }
+            }
+            return true;
+        }
+
+        private boolean isReadableOf(int version, int session) {
+            return versions.writerOf(version) == session && canReadVersion(version);
+        }
+    }
+
+    /** The discs before the latest changes, in a ring whose oldest one is overwritten first. */
+    private static final class History {
+        int count = 0;
+        private int oldest = 0;
+        private final Disc[] ring = new Disc[UNDO_DEPTH];
+
+        void clear() {
+            count = 0;
+            oldest = 0;
+        }
+
+        void keep(Disc disc) {
+            int index = (oldest + count) % UNDO_DEPTH;
+            if (count < UNDO_DEPTH) {
+                count++;
+            } else {
+                oldest = (oldest + 1) % UNDO_DEPTH;
+            }
+            storeIn(ring, index, disc);
+        }
+
+        boolean bringBack(Disc disc) {
+            if (count == 0) {
+                return false;
+            }
+            count--;
+            loadFrom(ring, (oldest + count) % UNDO_DEPTH, disc);
+            return true;
+        }
+    }
+
+    /** The two slots. */
+    private static final class Snapshots {
+        private final boolean[] stored = new boolean[SLOTS];
+        private final Disc[] discs = new Disc[SLOTS];
+
+        void clear() {
+            fill(stored, false);
+        }
+
+        boolean isStored(int slot) {
+            return isSet(stored, slot);
+        }
+
+        void store(int slot, Disc disc) {
+            mark(stored, slot, true);
+            storeIn(discs, slot, disc);
+        }
+
+        void load(int slot, Disc disc) {
+            loadFrom(discs, slot, disc);
+        }
+    }
+
+    // A place of such a row gets its disc when it is used first, and keeps it: few objects use all of them.
+    private static void storeIn(Disc[] row, int index, Disc disc) {
+        if (index >= 0 && index < row.length) {
+            if (row[index] == null) {
+                row[index] = new Disc();
+            }
+            row[index].takeFrom(disc);
+        }
+    }
+
+    private static void loadFrom(Disc[] row, int index, Disc disc) {
+        if (index >= 0 && index < row.length && row[index] != null) {
+            disc.takeFrom(row[index]);
+        }
+    }
+
+    /** Reads a text into a disc. It goes on token by token and ends at the first error. */
+    private static final class Parser {
+        /** The position of the latest text's error. */
+        int position = NONE;
+        private int code = 0;
+        private int length = 0;
+        private int token = END_TOKEN;
+        private int start = 0;
+        private int end = 0;
+        private int number = 0;
+        private long word = 0;
+
+        int readText(Input input, int textLength, Disc disc) {
+            position = NONE;
+            code = 0;
+            length = textLength;
+            end = 0;
+            if (readHead(input, disc)) {
+                readStatements(input, disc);
+            }
+            return code;
+        }
+
+        private boolean fail(int errorCode, int errorPosition) {
+            code = errorCode;
+            position = errorPosition;
+            return false;
+        }
+
+        private boolean readHead(Input input, Disc disc) {
+            advance(input);
+            if (!isWord(input, "disc")) {
+                return fail(BAD_TOKEN, start);
+            }
+            if (!readNumber(input, MIN_BLOCKS, MAX_BLOCKS)) {
+                return false;
+            }
+            int blocks = number;
+            if (!readNumber(input, 0, Math.min(MAX_SPARE, blocks / 2))) {
+                return false;
+            }
+            disc.format(blocks, number);
+            return readSemicolon(input);
+        }
+
+        private void readStatements(Input input, Disc disc) {
+            boolean going = true;
+            advance(input);
+            for (int n = 0; n < MAX_TEXT && going && token != END_TOKEN; n++) {
+                going = readStatement(input, disc) && readSemicolon(input);
+                if (going) {
+                    advance(input);
+                }
+            }
+        }
+
+        private boolean readStatement(Input input, Disc disc) {
+            if (isWord(input, "bad")) {
+                return readBad(input, disc);
+            }
+            if (isWord(input, "file")) {
+                return readNewFile(input, disc);
+            }
+            if (isWord(input, "write")) {
+                return readWrite(input, disc);
+            }
+            if (isWord(input, "erase")) {
+                return readErase(input, disc);
+            }
+            if (isWord(input, "close")) {
+                return doClose(disc);
+            }
+            return fail(BAD_TOKEN, start);
+        }
+
+        private boolean readBad(Input input, Disc disc) {
+            if (!readNumber(input, 0, disc.blocks.count - 1)) {
+                return false;
+            }
+            if (disc.blocks.isBad(number)) {
+                return fail(KNOWN_ALREADY, start);
+            }
+            mark(disc.blocks.bad, number, true);
+            return true;
+        }
+
+        private boolean readNewFile(Input input, Disc disc) {
+            if (disc.hasAllFiles()) {
+                return fail(TOO_MANY_FILES, start);
+            }
+            advance(input);
+            if (token != WORD_TOKEN) {
+                return fail(BAD_TOKEN, start);
+            }
+            if (disc.fileNamed(word) != NONE) {
+                return fail(KNOWN_ALREADY, start);
+            }
+            disc.addFile(word);
+            return true;
+        }
+
+        private boolean readWrite(Input input, Disc disc) {
+            int first = start;
+            if (!readFile(input, disc)) {
+                return false;
+            }
+            int file = disc.fileNamed(word);
+            if (!readNumber(input, 1, MAX_LENGTH)) {
+                return false;
+            }
+            int blocks = number;
+            if (!readNumber(input, 0, MAX_TAG)) {
+                return false;
+            }
+            if (disc.reasonAgainstWrite(file, blocks) != ALLOWED) {
+                return fail(REFUSED, first);
+            }
+            disc.writeVersion(file, blocks, number);
+            return true;
+        }
+
+        private boolean readErase(Input input, Disc disc) {
+            int first = start;
+            if (!readFile(input, disc)) {
+                return false;
+            }
+            int file = disc.fileNamed(word);
+            if (disc.reasonAgainstErase(file) != ALLOWED) {
+                return fail(REFUSED, first);
+            }
+            disc.eraseFile(file);
+            return true;
+        }
+
+        private boolean doClose(Disc disc) {
+            if (disc.reasonAgainstClose() != ALLOWED) {
+                return fail(REFUSED, start);
+            }
+            disc.closeSession();
+            return true;
+        }
+
+        private boolean readFile(Input input, Disc disc) {
+            advance(input);
+            if (token != WORD_TOKEN) {
+                return fail(BAD_TOKEN, start);
+            }
+            return disc.fileNamed(word) != NONE || fail(UNKNOWN_FILE, start);
+        }
+
+        private boolean readNumber(Input input, int least, int greatest) {
+            advance(input);
+            if (token != NUMBER_TOKEN) {
+                return fail(BAD_TOKEN, start);
+            }
+            return number >= least && number <= greatest || fail(OUT_OF_RANGE, start);
+        }
+
+        private boolean readSemicolon(Input input) {
+            advance(input);
+            return token == SEMICOLON_TOKEN || fail(BAD_TOKEN, start);
+        }
+
+        // ---- tokens
+
+        private boolean isWord(Input input, String wanted) {
+            if (token != WORD_TOKEN || end - start != wanted.length()) {
+                return false;
+            }
+            for (int i = 0; i < wanted.length(); i++) {
+                if (input.byteAt(start + i) != wanted.charAt(i)) {
+                    return false;
+                }
+            }
+            return true;
+        }
+
+        /** Goes on to the next token; at the end of the text, start is its length. */
+        private void advance(Input input) {
+            start = end;
+            while (start < length && (input.byteAt(start) == ' ' || input.byteAt(start) == '\n')) {
+                start++;
+            }
+            end = start;
+            if (start >= length) {
+                token = END_TOKEN;
+            } else if (input.hasLetterAt(start)) {
+                takeWord(input);
+            } else if (input.hasDigitAt(start)) {
+                takeNumber(input);
+            } else {
+                end++;
+                token = input.byteAt(start) == ';' ? SEMICOLON_TOKEN : INVALID_TOKEN;
+            }
+        }
+
+        private void takeWord(Input input) {
+            while (end < length && input.hasLetterAt(end)) {
+                end++;
+            }
+            token = end - start <= MAX_LETTERS ? WORD_TOKEN : INVALID_TOKEN;
+            word = input.wordBetween(start, end);
+        }
+
+        private void takeNumber(Input input) {
+            while (end < length && input.hasDigitAt(end)) {
+                end++;
+            }
+            token = end - start <= MAX_DIGITS ? NUMBER_TOKEN : INVALID_TOKEN;
+            number = 0;
+            for (int i = start; i < end && i < start + MAX_DIGITS; i++) {
+                number = number * 10 + (input.byteAt(i) - '0');
+            }
+        }
+    }
+}

@@ -1,0 +1,96 @@
+import java.lang.reflect.Constructor;
+import java.lang.reflect.Field;
+import java.lang.reflect.Method;
+import java.lang.reflect.Modifier;
+import java.nio.file.Files;
+import java.nio.file.Path;
+import java.util.Arrays;
+import java.util.HashSet;
+import java.util.Set;
+import java.util.TreeSet;
+import java.util.regex.Matcher;
+import java.util.regex.Pattern;
+
+/** The public face of the document, and those rules of LANGUAGE.md that a look at the file can tell. */
+public final class FaceTest {
+    private static final String[] FACE = {
+        "int append(int,int,int,int,int)", "int parse(int)", "int errorPosition()", "int size(int)", "int find()",
+        "int block(int,int)", "int place(int)", "int session(int,int)", "int entry(int,int,int)",
+        "int file(int,int)", "int where(int,int)", "int defect(int,boolean)", "int whyNotWrite(int,int)",
+        "int whyNot(int)", "int couldRecover()", "int risk(int)", "int weakest()", "int filesBefore(int)",
+        "int space(int)", "int spaceOf(int,int)", "double share()", "int write(int,int,int)", "int erase(int)",
+        "int close()", "int crash()", "int recover()", "boolean scratch(int)", "boolean setScan(boolean)",
+        "int undo()", "boolean saveSnapshot(int)", "int restoreSnapshot(int)"
+    };
+
+    public static void main(String[] args) throws Exception {
+        checkMembers();
+        checkNames();
+        checkSource(Files.readString(Path.of("src/main/java/OnceDisc.java")));
+        Check.end();
+    }
+
+    private static String face(Method method) {
+        StringBuilder text = new StringBuilder();
+        for (Class<?> type : method.getParameterTypes()) {
+            text.append(text.length() == 0 ? "" : ",").append(type.getSimpleName());
+        }
+        return method.getReturnType().getSimpleName() + " " + method.getName() + "(" + text + ")";
+    }
+
+    private static void checkMembers() {
+        Set<String> due = new TreeSet<>(Arrays.asList(FACE));
+        Set<String> found = new TreeSet<>();
+        for (Method method : OnceDisc.class.getDeclaredMethods()) {
+            if (!Modifier.isPrivate(method.getModifiers()) && !method.isSynthetic()) {
+                Check.isTrue(method + " is public and not static", method.getModifiers() == Modifier.PUBLIC);
+                found.add(face(method));
+            }
+        }
+        Check.equal("the methods that are not private", found.toString(), due.toString());
+        for (Field field : OnceDisc.class.getDeclaredFields()) {
+            if (!Modifier.isPrivate(field.getModifiers())) {
+                Check.equal("a field that is not private", field.getName(), "NONE");
+            }
+            if (Modifier.isStatic(field.getModifiers())) {
+                Check.isTrue(field + " is final", Modifier.isFinal(field.getModifiers()));
+            }
+        }
+        Constructor<?>[] constructors = OnceDisc.class.getDeclaredConstructors();
+        Check.equal("constructors", constructors.length, 1);
+        Check.isTrue("the constructor is public", Modifier.isPublic(constructors[0].getModifiers()));
+        Check.equal("NONE", OnceDisc.NONE, -1);
+        Check.isTrue("the class is final", Modifier.isFinal(OnceDisc.class.getModifiers()));
+    }
+
+    private static void checkNames() {
+        Set<String> face = new HashSet<>();
+        for (String method : FACE) {
+            face.add(method.substring(method.indexOf(' ') + 1, method.indexOf('(')));
+        }
+        for (Class<?> inside : OnceDisc.class.getDeclaredClasses()) {
+            Check.isTrue(inside + " is static", Modifier.isStatic(inside.getModifiers()));
+            Check.isTrue(inside + " has at most 20 fields", inside.getDeclaredFields().length <= 20);
+            for (Method method : inside.getDeclaredMethods()) {
+                Check.isTrue(method + " has a name of its own", !face.contains(method.getName()));
+                Check.isTrue(method + " has at most 7 parameters", method.getParameterCount() <= 7);
+            }
+        }
+        Check.isTrue("there are at most 12 classes", OnceDisc.class.getDeclaredClasses().length < 12);
+    }
+
+    private static void checkSource(String source) {
+        String code = source.replaceAll("(?s)/\\*.*?\\*/", " ").replaceAll("//[^\n]*", " ")
+                .replaceAll("\"[^\"]*\"", "\"\"");
+        String[] forbidden = {"->", "::", "\\bimport\\b", "\\bpackage\\b", "\\btry\\b", "\\bcatch\\b", "\\bfinally\\b",
+            "\\bsynchronized\\b", "\\bassert\\b", "\\bnative\\b", "\\bthread\\b", "\"\"\\s*\\+", "\\+\\s*\"\"",
+            "static\\s*\\{", "Exact\\b", "\\bSystem\\b", "\\btoString\\b", "\\bhashCode\\b"};
+        for (String pattern : forbidden) {
+            Matcher matcher = Pattern.compile(pattern).matcher(code);
+            Check.isTrue("no " + pattern + " in the file", !matcher.find());
+        }
+        for (int i = 0; i < source.length(); i++) {
+            Check.isTrue("a sign from 1 to 127 at " + i, source.charAt(i) >= 1 && source.charAt(i) <= 127);
+        }
+    }
+}
