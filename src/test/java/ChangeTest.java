@@ -344,7 +344,29 @@ public final class ChangeTest {
         Check.equal("it stays stored", disc.restoreSnapshot(0), 1);
         Check.equal("the state again", state(disc), before);
         Check.state("the other slot is empty", () -> disc.restoreSnapshot(1));
+        restoresWhatWasWrittenOver();
         Check.index("restoreSnapshot(2)", () -> disc.restoreSnapshot(2));
         Check.index("restoreSnapshot(-1)", () -> disc.restoreSnapshot(-1));
+    }
+
+    private static void restoresWhatWasWrittenOver() {
+        OnceDisc disc = Check.disc("disc 30 4;file a;file b;");
+        disc.scratch(0);
+        disc.write(0, 2, 3);
+        disc.close();
+        disc.write(0, 1, 4);
+        disc.write(1, 1, 5);
+        String before = state(disc);
+        disc.saveSnapshot(1);
+        for (int n = 0; n < 5; n++) {
+            disc.undo();
+        }
+        disc.write(1, 3, 6);
+        disc.crash();
+        disc.write(1, 1, 8);
+        disc.write(0, 4, 7);
+        disc.close();
+        Check.equal("restoreSnapshot", disc.restoreSnapshot(1), 2);
+        Check.equal("the state", state(disc), before);
     }
 }

@@ -9,6 +9,7 @@ public final class TextTest {
         promise3Names();
         promise3Refused();
         promise3Replaces();
+        promise3Again();
         promise4();
         promise5();
         promise6();
@@ -76,6 +77,18 @@ public final class TextTest {
         Check.equal("parse of the first bytes alone", Check.parse(disc, "disc 9 0;"), 0);
         Check.append(disc, "disc 12 0; disc");
         Check.equal("the first bytes of a longer buffer", disc.parse(10), 0);
+        Check.append(disc, "disc 960 0; disc");
+        Check.equal("a number cut off by the length", disc.parse(7), 1);
+        Check.equal("its position", disc.errorPosition(), 7);
+        Check.append(disc, "disc 20 0;bad 1234;");
+        Check.equal("a long number cut off", disc.parse(15), 1);
+        Check.equal("its position is the end", disc.errorPosition(), 15);
+        Check.append(disc, "disc 20 0;file abcdefghi;");
+        Check.equal("a long word cut off", disc.parse(23), 1);
+        Check.equal("its position is the end, too", disc.errorPosition(), 23);
+        Check.append(disc, "disc 20 0;files");
+        Check.equal("a keyword cut off", disc.parse(14), 1);
+        Check.equal("its position is the end, too", disc.errorPosition(), 14);
         Check.argument("the rest is dropped", () -> disc.parse(1));
         Check.equal("find in an empty buffer", disc.find(), -1);
         error("disc8 0;bad7;file a;write a1 0;erase a;close;", 0, -1);
@@ -91,6 +104,7 @@ public final class TextTest {
         error("disc 8 0", 1, 8);
         error("disc 8 0 \n", 1, 10);
         error("disk 8 0;", 1, 0);
+        error("xisc 8 0;", 1, 0);
         error("discs 8 0;", 1, 0);
         error("dis 8 0;", 1, 0);
         error("Disc 8 0;", 1, 0);
@@ -239,6 +253,31 @@ public final class TextTest {
         }
     }
 
+    /** Nothing of an earlier disc is left, however often texts replace one another. */
+    private static void promise3Again() {
+        OnceDisc disc = new OnceDisc();
+        for (int n = 0; n < 4; n++) {
+            Check.equal("parse " + n, Check.parse(disc, "disc 16 4;file a;file b;bad 0;write a 2 5;erase a;close;"), 0);
+            int[] due = {16, 4, 2, 1, 3, 3, 1, 0, 0, 0, 0, 0, 1};
+            for (int what = 0; what < due.length; what++) {
+                Check.equal("size(" + what + ") after parse " + n, disc.size(what), due[what]);
+            }
+            for (int block = 0; block < 16; block++) {
+                int kind = block == 0 ? 3 : block == 1 || block == 12 ? 1 : block == 2 ? 2 : 0;
+                Check.equal("the kind of " + block + " after parse " + n, disc.block(block, 0), kind);
+                Check.equal("bad " + block + " after parse " + n, disc.block(block, 1), block == 0 ? 1 : 0);
+                Check.equal("unreadable " + block + " after parse " + n, disc.block(block, 2), 0);
+            }
+            disc.setScan(true);
+            disc.write(0, 3, 1);
+            disc.write(1, 2, 2);
+            for (int block = n; block < 16; block += 2) {
+                disc.scratch(block);
+            }
+            disc.crash();
+        }
+    }
+
     private static void promise4() {
         OnceDisc disc = new OnceDisc();
         Check.equal("no parse yet", disc.errorPosition(), -1);
@@ -290,6 +329,8 @@ public final class TextTest {
         Check.equal("a zero byte", Check.find(disc, "ab\u0000"), -1);
         Check.equal("spaces alone", Check.find(disc, " "), -1);
         Check.equal("nothing", disc.find(), -1);
+        Check.equal("a digit", Check.find(disc, "1b"), -1);
+        Check.equal("a capital amid", Check.find(disc, "aB"), -1);
         Check.equal("no such name", Check.find(disc, "b"), -1);
         Check.argument("the buffer is empty also then", () -> disc.parse(1));
     }

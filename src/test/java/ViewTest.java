@@ -332,6 +332,9 @@ public final class ViewTest {
         disc.scratch(7);
         Check.equal("no file", disc.couldRecover(), 0);
         Check.equal("a new object", new OnceDisc().couldRecover(), 0);
+        OnceDisc twice = Check.disc("disc 30 0;file a;write a 1 1;write a 1 2;");
+        twice.crash();
+        Check.equal("two versions of one file", twice.couldRecover(), 1);
     }
 
     private static void promise17() {
@@ -376,6 +379,8 @@ public final class ViewTest {
         OnceDisc spare = Check.disc("disc 20 2;file a;bad 0;bad 1;write a 1 1;close;");
         Check.equal("a spare block", spare.weakest(), 18);
         Check.equal("nothing has changed", spare.size(8), 1);
+        OnceDisc first = Check.disc("disc 20 0;file a;write a 1 1;close;");
+        Check.equal("the first block", first.weakest(), 0);
     }
 
     private static void promise19() {
@@ -450,5 +455,8 @@ public final class ViewTest {
         Check.isTrue("share() of an empty disc", new OnceDisc().share() == 1.0);
         OnceDisc open = Check.disc("disc 8 0;file a;write a 2 1;");
         Check.isTrue("share() is all", open.share() == 1.0);
+        OnceDisc one = Check.disc("disc 8 0;file a;write a 1 1;");
+        one.crash();
+        Check.isTrue("share() is none of one", one.share() == 0.0);
     }
 }
