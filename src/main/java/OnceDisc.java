@@ -19,6 +19,8 @@ public final class OnceDisc {
     private static final int ENTRIES_IN_BLOCK = 4;
     private static final int UNDO_DEPTH = 10;
     private static final int SLOTS = 2;
+    // Stands for an entry that a session has not. (NONE is the version of an entry that tells of an erased file.)
+    private static final int ABSENT = -2;
 
     private static final int EMPTY = 0;
     private static final int DATA = 1;
@@ -56,8 +58,15 @@ public final class OnceDisc {
     private static final int SEMICOLON_TOKEN = 3;
     private static final int INVALID_TOKEN = 4;
 
+    private static final int BAD_STATEMENT = 0;
+    private static final int WRITE_STATEMENT = 1;
+    private static final int ERASE_STATEMENT = 2;
+    private static final int CLOSE_STATEMENT = 3;
+    // The shortest statement has 5 bytes: "bad7;".
+    private static final int MAX_STATEMENTS = MAX_TEXT / 5;
+
     private final Input input = new Input();
-    private final Parser parser = new Parser();
+    private final Text text = new Text();
     private final History history = new History();
     private final Snapshots snapshots = new Snapshots();
     private final View afterScratch = new View();
@@ -88,21 +97,29 @@ public final class OnceDisc {
     /** Promise 3. */
     public int parse(int length) throws IllegalArgumentException {
         checkRange(length, 0, input.used);
-        int code = parser.readText(input, length, draft);
+        text.read(input, length);
         input.used = 0;
-        if (code == 0) {
+        draft.begin(text);
+        for (int n = 0; n < text.count; n++) {
+            if (draft.reasonAgainstStatement(text, n) != ALLOWED) {
+                text.refuseStatement(n);
+                break;
+            }
+            draft.doStatement(text, n);
+        }
+        if (text.code == 0) {
             Disc old = disc;
             disc = draft;
             draft = old;
             history.clear();
             snapshots.clear();
         }
-        return code;
+        return text.code;
     }
 
     /** Promise 4. */
     public int errorPosition() {
-        return parser.position;
+        return text.position;
     }
 
     /** Promise 5. */
@@ -116,8 +133,8 @@ public final class OnceDisc {
             case 4: return disc.blocks.next;
             case 5: return disc.blocks.emptySpares();
             case 6: return disc.blocks.badOnes();
-            case 7: return disc.look().filesThere();
-            case 8: return disc.look().filesReadable();
+            case 7: return disc.view.lookAt(disc).filesThere();
+            case 8: return disc.view.lookAt(disc).filesReadable();
             case 9: return oneIf(disc.sessions.isOpen());
             case 10: return oneIf(disc.scan);
             case 11: return history.count;
@@ -158,9 +175,10 @@ public final class OnceDisc {
             case 2: return disc.blocks.mainBlocksOf(session);
             case 3: return sessions.entriesOf(session);
             case 4: return sessions.directoryOf(session);
-            case 5: return oneIf(disc.canReadDirectory(session));
+            case 5:
+                return oneIf(disc.blocks.canRead(sessions.directoryOf(session), sessions.directoryLengthOf(session)));
             case 6: return sessions.linkOf(session);
-            case 7: return oneIf(disc.look().isReached(session));
+            case 7: return oneIf(disc.view.lookAt(disc).isReached(session));
             default: return disc.blocks.spareBlocksOf(session);
         }
     }
@@ -169,13 +187,13 @@ public final class OnceDisc {
     public int entry(int session, int k, int part) throws IndexOutOfBoundsException, IllegalArgumentException {
         checkIndex(session, disc.sessions.count);
         checkRange(part, 0, 4);
-        int slot = disc.sessions.slotAt(session, k);
-        if (slot == NONE) {
+        int file = disc.sessions.fileAt(session, k);
+        if (file == NONE) {
             return NONE;
         }
-        int version = disc.sessions.versionIn(slot);
+        int version = disc.sessions.versionFor(session, file);
         switch (part) {
-            case 0: return disc.sessions.fileIn(slot);
+            case 0: return file;
             case 1: return version;
             case 2: return disc.versions.firstOf(version);
             case 3: return disc.versions.lengthOf(version);
@@ -187,7 +205,7 @@ public final class OnceDisc {
     public int file(int file, int what) throws IndexOutOfBoundsException, IllegalArgumentException {
         checkIndex(file, disc.fileCount);
         checkRange(what, 0, 6);
-        View view = disc.look();
+        View view = disc.view.lookAt(disc);
         int version = view.versionOf(file);
         switch (what) {
             case 0: return oneIf(version != NONE);
@@ -203,7 +221,7 @@ public final class OnceDisc {
     /** Promise 12. */
     public int where(int file, int k) throws IndexOutOfBoundsException {
         checkIndex(file, disc.fileCount);
-        int version = disc.look().versionOf(file);
+        int version = disc.view.lookAt(disc).versionOf(file);
         if (k < 0 || k >= disc.versions.lengthOf(version)) {
             return NONE;
         }
@@ -246,12 +264,12 @@ public final class OnceDisc {
     /** Promise 17. */
     public int risk(int block) throws IndexOutOfBoundsException {
         checkIndex(block, disc.blocks.count);
-        return disc.filesLostBy(block, disc.look(), afterScratch);
+        return disc.filesLostBy(block, disc.view.lookAt(disc), afterScratch);
     }
 
     /** Promise 18. */
     public int weakest() {
-        View now = disc.look();
+        View now = disc.view.lookAt(disc);
         int found = 0;
         int greatest = 0;
         for (int block = 0; block < disc.blocks.count; block++) {
@@ -267,7 +285,7 @@ public final class OnceDisc {
     /** Promise 19. */
     public int filesBefore(int session) throws IndexOutOfBoundsException {
         checkIndex(session, disc.sessions.count);
-        return disc.look().filesThereBefore(disc, session);
+        return disc.view.lookAt(disc).filesThereBefore(disc.sessions, session);
     }
 
     // ---- space
@@ -313,7 +331,7 @@ public final class OnceDisc {
         checkAllowed(disc.reasonAgainstErase(file));
         history.keep(disc);
         disc.eraseFile(file);
-        return disc.look().filesThere();
+        return disc.view.lookAt(disc).filesThere();
     }
 
     /** Promise 25. */
@@ -402,10 +420,33 @@ public final class OnceDisc {
         return condition ? 1 : 0;
     }
 
+    // A word of 1 to 8 letters is held as a number that no other word has: its letters are digits from 1
+    // to 26, to the base 27.
+    private static long withLetter(long word, int letter) {
+        return word * 27 + (letter - 'a' + 1);
+    }
+
+    private static long packed(String word) {
+        long result = 0;
+        for (int i = 0; i < word.length(); i++) {
+            result = withLetter(result, word.charAt(i));
+        }
+        return result;
+    }
+
+    /** The blocks of the directory that tells some entries. */
+    private static int directoryLength(int entries) {
+        return 1 + (entries - 1) / ENTRIES_IN_BLOCK;
+    }
+
     // ---- rows
 
     /** The element of a row, or another answer where the row has no such index. */
     private static int at(int[] row, int index, int otherwise) {
+        return index >= 0 && index < row.length ? row[index] : otherwise;
+    }
+
+    private static long at(long[] row, int index, long otherwise) {
         return index >= 0 && index < row.length ? row[index] : otherwise;
     }
 
@@ -414,6 +455,12 @@ public final class OnceDisc {
     }
 
     private static void put(int[] row, int index, int value) {
+        if (index >= 0 && index < row.length) {
+            row[index] = value;
+        }
+    }
+
+    private static void put(long[] row, int index, long value) {
         if (index >= 0 && index < row.length) {
             row[index] = value;
         }
@@ -455,6 +502,16 @@ public final class OnceDisc {
         }
     }
 
+    /** The first index of a value among the first elements of a row. */
+    private static int indexOf(long[] row, int count, long value) {
+        for (int i = 0; i < count && i < row.length; i++) {
+            if (row[i] == value) {
+                return i;
+            }
+        }
+        return NONE;
+    }
+
     /** The input buffer. */
     private static final class Input {
         final int[] bytes = new int[MAX_TEXT];
@@ -490,11 +547,16 @@ public final class OnceDisc {
             return value >= '0' && value <= '9';
         }
 
-        /** A number that no other word of 1 to 8 letters has: the letters as digits 1 to 26, to the base 27. */
+        boolean hasBlankAt(int index) {
+            int value = byteAt(index);
+            return value == ' ' || value == '\n';
+        }
+
+        /** The number of the word from start on, to the letter ahead of end. */
         long wordBetween(int start, int end) {
             long word = 0;
             for (int i = start; i < end && i < start + MAX_LETTERS; i++) {
-                word = word * 27 + (byteAt(i) - 'a' + 1);
+                word = withLetter(word, byteAt(i));
             }
             return word;
         }
@@ -673,13 +735,18 @@ public final class OnceDisc {
             return NONE;
         }
 
+        /** Whether the places of some blocks of the main area are readable; first is NONE if there are none. */
         boolean canRead(int first, int length) {
-            for (int block = first; block < first + length && block < main; block++) {
-                if (isUnreadable(placeOf(block))) {
+            for (int block = first; block >= 0 && block < first + length && block < main; block++) {
+                if (isSet(unreadable, at(places, block, NONE))) {
                     return false;
                 }
             }
-            return true;
+            return first != NONE;
+        }
+
+        void makeBad(int block) {
+            mark(bad, block, true);
         }
 
         boolean damage(int block) {
@@ -748,21 +815,25 @@ public final class OnceDisc {
         }
     }
 
-    /** All sessions. The entry k of a session stands in the rows of entries at the slot session * MAX_FILES + k. */
+    /** All sessions. */
     private static final class Sessions {
         int count = 0;
-        final int[] states = new int[MAX_SESSIONS];
-        final int[] firsts = new int[MAX_SESSIONS];
-        final int[] directories = new int[MAX_SESSIONS];
-        final int[] entries = new int[MAX_SESSIONS];
-        final int[] entryFiles = new int[MAX_SESSIONS * MAX_FILES];
-        final int[] entryVersions = new int[MAX_SESSIONS * MAX_FILES];
+        private final int[] states = new int[MAX_SESSIONS];
+        private final int[] firsts = new int[MAX_SESSIONS];
+        private final int[] directories = new int[MAX_SESSIONS];
+        private final int[] directoryLengths = new int[MAX_SESSIONS];
+        private final int[] entries = new int[MAX_SESSIONS];
+        // The files in the order of the entries, at the session times MAX_FILES plus the number of the entry.
+        private final int[] entryFiles = new int[MAX_SESSIONS * MAX_FILES];
+        // The versions by the files, at the session times MAX_FILES plus the file.
+        private final int[] entryVersions = new int[MAX_SESSIONS * MAX_FILES];
 
         void takeFrom(Sessions other) {
             count = other.count;
             copy(other.states, states);
             copy(other.firsts, firsts);
             copy(other.directories, directories);
+            copy(other.directoryLengths, directoryLengths);
             copy(other.entries, entries);
             copy(other.entryFiles, entryFiles);
             copy(other.entryVersions, entryVersions);
@@ -796,16 +867,26 @@ public final class OnceDisc {
             return at(directories, session, NONE);
         }
 
+        int directoryLengthOf(int session) {
+            return at(directoryLengths, session, 0);
+        }
+
         int entriesOf(int session) {
             return at(entries, session, 0);
         }
 
-        int fileIn(int slot) {
-            return at(entryFiles, slot, NONE);
+        int fileAt(int session, int k) {
+            return k >= 0 && k < entriesOf(session) ? at(entryFiles, session * MAX_FILES + k, NONE) : NONE;
         }
 
-        int versionIn(int slot) {
-            return at(entryVersions, slot, NONE);
+        boolean hasEntry(int session, int file) {
+            return at(entryVersions, session * MAX_FILES + file, ABSENT) != ABSENT;
+        }
+
+        /** The version of a file's entry; NONE if it tells that the file is erased, or if there is no entry. */
+        int versionFor(int session, int file) {
+            int version = at(entryVersions, session * MAX_FILES + file, ABSENT);
+            return version == ABSENT ? NONE : version;
         }
 
         void begin(int first) {
@@ -814,31 +895,25 @@ public final class OnceDisc {
             put(states, session, OPEN);
             put(firsts, session, first);
             put(directories, session, NONE);
+            put(directoryLengths, session, 0);
+            forgetEntries(session);
+        }
+
+        private void forgetEntries(int session) {
             put(entries, session, 0);
-        }
-
-        int slotAt(int session, int k) {
-            return k >= 0 && k < entriesOf(session) ? session * MAX_FILES + k : NONE;
-        }
-
-        int slotOfFile(int session, int file) {
-            for (int k = 0; k < entriesOf(session); k++) {
-                if (fileIn(slotAt(session, k)) == file) {
-                    return slotAt(session, k);
-                }
+            for (int file = 0; file < MAX_FILES; file++) {
+                put(entryVersions, session * MAX_FILES + file, ABSENT);
             }
-            return NONE;
         }
 
         /** Puts an entry into the open session; the version is NONE if the file is erased. */
         void enter(int file, int version) {
-            int slot = slotOfFile(latest(), file);
-            if (slot == NONE) {
-                put(entries, latest(), entriesOf(latest()) + 1);
-                slot = slotAt(latest(), entriesOf(latest()) - 1);
+            int session = latest();
+            if (!hasEntry(session, file)) {
+                put(entryFiles, session * MAX_FILES + entriesOf(session), file);
+                put(entries, session, entriesOf(session) + 1);
             }
-            put(entryFiles, slot, file);
-            put(entryVersions, slot, version);
+            put(entryVersions, session * MAX_FILES + file, version);
         }
 
         /** The entries that the session has, open now or begun for it, when a file has come into it. */
@@ -846,17 +921,22 @@ public final class OnceDisc {
             if (!isOpen()) {
                 return 1;
             }
-            return entriesOf(latest()) + oneIf(slotOfFile(latest(), file) == NONE);
+            return entriesOf(latest()) + oneIf(!hasEntry(latest(), file));
         }
 
-        void markClosed(int directory) {
+        void markClosed(int directory, int length) {
             put(states, latest(), CLOSED);
             put(directories, latest(), directory);
+            put(directoryLengths, latest(), length);
         }
 
         void markLost() {
             put(states, latest(), LOST);
-            put(entries, latest(), 0);
+            forgetEntries(latest());
+        }
+
+        void markRecovered() {
+            put(states, latest(), RECOVERED);
         }
 
         int linkOf(int session) {
@@ -880,25 +960,28 @@ public final class OnceDisc {
         private final int[] versions = new int[MAX_FILES];
         private final boolean[] readable = new boolean[MAX_FILES];
 
-        void update(Disc disc) {
+        /** Looks at a disc as it is now; the view itself is the answer. */
+        View lookAt(Disc disc) {
             fileCount = disc.fileCount;
             markReached(disc);
             for (int file = 0; file < fileCount; file++) {
                 int session = sessionThatCounts(disc.sessions, file, disc.sessions.count);
-                int version = disc.sessions.versionIn(disc.sessions.slotOfFile(session, file));
+                int version = disc.sessions.versionFor(session, file);
                 put(sessions, file, session);
                 put(versions, file, version);
-                mark(readable, file, version != NONE && disc.canReadVersion(version));
+                mark(readable, file, disc.canReadVersion(version));
             }
+            return this;
         }
 
         private void markReached(Disc disc) {
+            Sessions all = disc.sessions;
             boolean searching = true;
-            for (int session = disc.sessions.latest(); session >= 0; session--) {
-                int state = disc.sessions.stateOf(session);
+            for (int session = all.latest(); session >= 0; session--) {
+                int state = all.stateOf(session);
                 boolean found = state == OPEN;
                 if (state == CLOSED && searching) {
-                    found = disc.canReadDirectory(session);
+                    found = disc.blocks.canRead(all.directoryOf(session), all.directoryLengthOf(session));
                     searching = found || disc.scan;
                 }
                 mark(reached, session, found);
@@ -908,7 +991,7 @@ public final class OnceDisc {
         /** The latest session that is reached, is numbered lower than end and has an entry of the file. */
         private int sessionThatCounts(Sessions all, int file, int end) {
             for (int session = end - 1; session >= 0; session--) {
-                if (isReached(session) && all.slotOfFile(session, file) != NONE) {
+                if (isReached(session) && all.hasEntry(session, file)) {
                     return session;
                 }
             }
@@ -947,12 +1030,10 @@ public final class OnceDisc {
             return found;
         }
 
-        int filesThereBefore(Disc disc, int end) {
+        int filesThereBefore(Sessions all, int end) {
             int found = 0;
             for (int file = 0; file < fileCount; file++) {
-                int session = sessionThatCounts(disc.sessions, file, end);
-                int slot = disc.sessions.slotOfFile(session, file);
-                found += oneIf(disc.sessions.versionIn(slot) != NONE);
+                found += oneIf(all.versionFor(sessionThatCounts(all, file, end), file) != NONE);
             }
             return found;
         }
@@ -966,7 +1047,7 @@ public final class OnceDisc {
         int fileCount = 0;
         private final long[] names = new long[MAX_FILES];
         boolean scan = false;
-        private final View view = new View();
+        final View view = new View();
 
         void format(int blockCount, int spareCount) {
             blocks.format(blockCount, spareCount);
@@ -974,6 +1055,32 @@ public final class OnceDisc {
             sessions.count = 0;
             fileCount = 0;
             scan = false;
+        }
+
+        /** Becomes the disc of a text, ahead of its statements. */
+        void begin(Text text) {
+            format(text.blocks, text.spare);
+            fileCount = text.fileCount;
+            copy(text.names, names);
+        }
+
+        /** Why a statement of a text is refused now. */
+        int reasonAgainstStatement(Text text, int n) {
+            switch (text.kindOf(n)) {
+                case WRITE_STATEMENT: return reasonAgainstWrite(text.targetOf(n), text.lengthOf(n));
+                case ERASE_STATEMENT: return reasonAgainstErase(text.targetOf(n));
+                case CLOSE_STATEMENT: return reasonAgainstClose();
+                default: return ALLOWED;
+            }
+        }
+
+        void doStatement(Text text, int n) {
+            switch (text.kindOf(n)) {
+                case WRITE_STATEMENT: writeVersion(text.targetOf(n), text.lengthOf(n), text.tagOf(n)); break;
+                case ERASE_STATEMENT: eraseFile(text.targetOf(n)); break;
+                case CLOSE_STATEMENT: closeSession(); break;
+                default: blocks.makeBad(text.targetOf(n)); break;
+            }
         }
 
         void takeFrom(Disc other) {
@@ -985,42 +1092,12 @@ public final class OnceDisc {
             scan = other.scan;
         }
 
-        View look() {
-            view.update(this);
-            return view;
-        }
-
-        boolean hasAllFiles() {
-            return fileCount >= MAX_FILES;
-        }
-
-        void addFile(long name) {
-            if (fileCount < names.length) {
-                names[fileCount] = name;
-                fileCount++;
-            }
-        }
-
         int fileNamed(long name) {
-            for (int file = 0; file < fileCount && file < names.length; file++) {
-                if (names[file] == name) {
-                    return file;
-                }
-            }
-            return NONE;
+            return indexOf(names, fileCount, name);
         }
 
         boolean canReadVersion(int version) {
             return blocks.canRead(versions.firstOf(version), versions.lengthOf(version));
-        }
-
-        boolean canReadDirectory(int session) {
-            int directory = sessions.directoryOf(session);
-            return directory != NONE && blocks.canRead(directory, directoryLength(sessions.entriesOf(session)));
-        }
-
-        private static int directoryLength(int entries) {
-            return 1 + (entries - 1) / ENTRIES_IN_BLOCK;
         }
 
         /** The block k of those that were relocated, except by a session that is lost and not recovered. */
@@ -1043,7 +1120,7 @@ public final class OnceDisc {
                 return 0;
             }
             mark(blocks.unreadable, block, true);
-            after.update(this);
+            after.lookAt(this);
             mark(blocks.unreadable, block, false);
             int lost = 0;
             for (int file = 0; file < fileCount; file++) {
@@ -1054,7 +1131,7 @@ public final class OnceDisc {
 
         /** The blocks of a use that a session wrote, or of the whole disc if the session is NONE. */
         int blocksUsed(int session, int use) {
-            View now = look();
+            View now = view.lookAt(this);
             int found = 0;
             for (int block = 0; block < blocks.count; block++) {
                 boolean asked = session == NONE || blocks.writerOf(block) == session;
@@ -1087,7 +1164,7 @@ public final class OnceDisc {
         }
 
         int reasonAgainstErase(int file) {
-            if (look().versionOf(file) == NONE) {
+            if (view.lookAt(this).versionOf(file) == NONE) {
                 return NOTHING_TO_DO;
             }
             if (sessions.oneMoreIsTooMany()) {
@@ -1154,7 +1231,7 @@ public final class OnceDisc {
             for (int number = 0; number < length; number++) {
                 blocks.writeNext(DIRECTORY, session, NONE, number);
             }
-            sessions.markClosed(directory);
+            sessions.markClosed(directory, length);
             return session;
         }
 
@@ -1165,11 +1242,12 @@ public final class OnceDisc {
 
         int recoverSession() {
             int lost = sessions.latest();
-            put(sessions.states, lost, RECOVERED);
+            sessions.markRecovered();
             sessions.begin(blocks.next);
             for (int version = 0; version < versions.count; version++) {
-                if (isRecoverable(version, lost)) {
-                    sessions.enter(versions.fileOf(version), version);
+                int file = versions.fileOf(version);
+                if (recoverableVersionOf(file, lost) == version) {
+                    sessions.enter(file, version);
                 }
             }
             closeSession();
@@ -1178,27 +1256,21 @@ public final class OnceDisc {
 
         int recoverableVersions() {
             int found = 0;
-            for (int version = 0; sessions.latestIsLost() && version < versions.count; version++) {
-                found += oneIf(isRecoverable(version, sessions.latest()));
+            for (int file = 0; sessions.latestIsLost() && file < fileCount; file++) {
+                found += oneIf(recoverableVersionOf(file, sessions.latest()) != NONE);
             }
             return found;
         }
 
-        /** Whether a version is the latest readable one of its file that the lost session wrote. */
-        private boolean isRecoverable(int version, int lost) {
-            if (!isReadableOf(version, lost)) {
-                return false;
-            }
-            for (int later = version + 1; later < versions.count; later++) {
-                if (versions.fileOf(later) == versions.fileOf(version) && isReadableOf(later, lost)) {
-                    return false;
+        /** The latest readable version of a file that the lost session wrote. */
+        private int recoverableVersionOf(int file, int lost) {
+            for (int version = versions.count - 1; version >= 0; version--) {
+                boolean asked = versions.fileOf(version) == file && versions.writerOf(version) == lost;
+                if (asked && canReadVersion(version)) {
+                    return version;
                 }
             }
-            return true;
-        }
-
-        private boolean isReadableOf(int version, int session) {
-            return versions.writerOf(version) == session && canReadVersion(version);
+            return NONE;
         }
     }
 
@@ -1272,219 +1344,272 @@ public final class OnceDisc {
         }
     }
 
-    /** Reads a text into a disc. It goes on token by token and ends at the first error. */
-    private static final class Parser {
-        /** The position of the latest text's error. */
-        int position = NONE;
-        private int code = 0;
+    /** The tokens of a text, in their order. */
+    private static final class Tokens {
+        int count = 0;
         private int length = 0;
-        private int token = END_TOKEN;
-        private int start = 0;
-        private int end = 0;
-        private int number = 0;
-        private long word = 0;
+        private final int[] kinds = new int[MAX_TEXT];
+        private final int[] starts = new int[MAX_TEXT];
+        private final int[] numbers = new int[MAX_TEXT];
+        private final long[] words = new long[MAX_TEXT];
 
-        int readText(Input input, int textLength, Disc disc) {
-            position = NONE;
-            code = 0;
+        void read(Input input, int textLength) {
             length = textLength;
-            end = 0;
-            if (readHead(input, disc)) {
-                readStatements(input, disc);
-            }
-            return code;
-        }
-
-        private boolean fail(int errorCode, int errorPosition) {
-            code = errorCode;
-            position = errorPosition;
-            return false;
-        }
-
-        private boolean readHead(Input input, Disc disc) {
-            advance(input);
-            if (!isWord(input, "disc")) {
-                return fail(BAD_TOKEN, start);
-            }
-            if (!readNumber(input, MIN_BLOCKS, MAX_BLOCKS)) {
-                return false;
-            }
-            int blocks = number;
-            if (!readNumber(input, 0, Math.min(MAX_SPARE, blocks / 2))) {
-                return false;
-            }
-            disc.format(blocks, number);
-            return readSemicolon(input);
-        }
-
-        private void readStatements(Input input, Disc disc) {
-            boolean going = true;
-            advance(input);
-            for (int n = 0; n < MAX_TEXT && going && token != END_TOKEN; n++) {
-                going = readStatement(input, disc) && readSemicolon(input);
-                if (going) {
-                    advance(input);
+            count = 0;
+            int start = 0;
+            while (start < length) {
+                int end = start + 1;
+                if (input.hasLetterAt(start)) {
+                    end = takeWord(input, start);
+                } else if (input.hasDigitAt(start)) {
+                    end = takeNumber(input, start);
+                } else if (!input.hasBlankAt(start)) {
+                    add(input.byteAt(start) == ';' ? SEMICOLON_TOKEN : INVALID_TOKEN, start);
                 }
+                start = end;
             }
         }
 
-        private boolean readStatement(Input input, Disc disc) {
-            if (isWord(input, "bad")) {
-                return readBad(input, disc);
-            }
-            if (isWord(input, "file")) {
-                return readNewFile(input, disc);
-            }
-            if (isWord(input, "write")) {
-                return readWrite(input, disc);
-            }
-            if (isWord(input, "erase")) {
-                return readErase(input, disc);
-            }
-            if (isWord(input, "close")) {
-                return doClose(disc);
-            }
-            return fail(BAD_TOKEN, start);
+        /** The kind of a token; all behind the last one are ends of the text. */
+        int kindOf(int token) {
+            return token < count ? at(kinds, token, END_TOKEN) : END_TOKEN;
         }
 
-        private boolean readBad(Input input, Disc disc) {
-            if (!readNumber(input, 0, disc.blocks.count - 1)) {
-                return false;
-            }
-            if (disc.blocks.isBad(number)) {
-                return fail(KNOWN_ALREADY, start);
-            }
-            mark(disc.blocks.bad, number, true);
-            return true;
+        /** The index of a token's first byte; the text's length for an end of the text. */
+        int startOf(int token) {
+            return token < count ? at(starts, token, length) : length;
         }
 
-        private boolean readNewFile(Input input, Disc disc) {
-            if (disc.hasAllFiles()) {
-                return fail(TOO_MANY_FILES, start);
-            }
-            advance(input);
-            if (token != WORD_TOKEN) {
-                return fail(BAD_TOKEN, start);
-            }
-            if (disc.fileNamed(word) != NONE) {
-                return fail(KNOWN_ALREADY, start);
-            }
-            disc.addFile(word);
-            return true;
+        int numberOf(int token) {
+            return at(numbers, token, 0);
         }
 
-        private boolean readWrite(Input input, Disc disc) {
-            int first = start;
-            if (!readFile(input, disc)) {
-                return false;
-            }
-            int file = disc.fileNamed(word);
-            if (!readNumber(input, 1, MAX_LENGTH)) {
-                return false;
-            }
-            int blocks = number;
-            if (!readNumber(input, 0, MAX_TAG)) {
-                return false;
-            }
-            if (disc.reasonAgainstWrite(file, blocks) != ALLOWED) {
-                return fail(REFUSED, first);
-            }
-            disc.writeVersion(file, blocks, number);
-            return true;
+        long wordOf(int token) {
+            return at(words, token, NONE);
         }
 
-        private boolean readErase(Input input, Disc disc) {
-            int first = start;
-            if (!readFile(input, disc)) {
-                return false;
-            }
-            int file = disc.fileNamed(word);
-            if (disc.reasonAgainstErase(file) != ALLOWED) {
-                return fail(REFUSED, first);
-            }
-            disc.eraseFile(file);
-            return true;
+        private void add(int kind, int start) {
+            put(kinds, count, kind);
+            put(starts, count, start);
+            count++;
         }
 
-        private boolean doClose(Disc disc) {
-            if (disc.reasonAgainstClose() != ALLOWED) {
-                return fail(REFUSED, start);
-            }
-            disc.closeSession();
-            return true;
-        }
-
-        private boolean readFile(Input input, Disc disc) {
-            advance(input);
-            if (token != WORD_TOKEN) {
-                return fail(BAD_TOKEN, start);
-            }
-            return disc.fileNamed(word) != NONE || fail(UNKNOWN_FILE, start);
-        }
-
-        private boolean readNumber(Input input, int least, int greatest) {
-            advance(input);
-            if (token != NUMBER_TOKEN) {
-                return fail(BAD_TOKEN, start);
-            }
-            return number >= least && number <= greatest || fail(OUT_OF_RANGE, start);
-        }
-
-        private boolean readSemicolon(Input input) {
-            advance(input);
-            return token == SEMICOLON_TOKEN || fail(BAD_TOKEN, start);
-        }
-
-        // ---- tokens
-
-        private boolean isWord(Input input, String wanted) {
-            if (token != WORD_TOKEN || end - start != wanted.length()) {
-                return false;
-            }
-            for (int i = 0; i < wanted.length(); i++) {
-                if (input.byteAt(start + i) != wanted.charAt(i)) {
-                    return false;
-                }
-            }
-            return true;
-        }
-
-        /** Goes on to the next token; at the end of the text, start is its length. */
-        private void advance(Input input) {
-            start = end;
-            while (start < length && (input.byteAt(start) == ' ' || input.byteAt(start) == '\n')) {
-                start++;
-            }
-            end = start;
-            if (start >= length) {
-                token = END_TOKEN;
-            } else if (input.hasLetterAt(start)) {
-                takeWord(input);
-            } else if (input.hasDigitAt(start)) {
-                takeNumber(input);
-            } else {
-                end++;
-                token = input.byteAt(start) == ';' ? SEMICOLON_TOKEN : INVALID_TOKEN;
-            }
-        }
-
-        private void takeWord(Input input) {
+        private int takeWord(Input input, int start) {
+            int end = start;
             while (end < length && input.hasLetterAt(end)) {
                 end++;
             }
-            token = end - start <= MAX_LETTERS ? WORD_TOKEN : INVALID_TOKEN;
-            word = input.wordBetween(start, end);
+            put(words, count, input.wordBetween(start, end));
+            add(end - start <= MAX_LETTERS ? WORD_TOKEN : INVALID_TOKEN, start);
+            return end;
         }
 
-        private void takeNumber(Input input) {
+        private int takeNumber(Input input, int start) {
+            int end = start;
+            int number = 0;
             while (end < length && input.hasDigitAt(end)) {
+                // A longer run is no number, whatever comes out here.
+                number = number * 10 + (input.byteAt(end) - '0');
                 end++;
             }
-            token = end - start <= MAX_DIGITS ? NUMBER_TOKEN : INVALID_TOKEN;
-            number = 0;
-            for (int i = start; i < end && i < start + MAX_DIGITS; i++) {
-                number = number * 10 + (input.byteAt(i) - '0');
+            put(numbers, count, number);
+            add(end - start <= MAX_DIGITS ? NUMBER_TOKEN : INVALID_TOKEN, start);
+            return end;
+        }
+    }
+
+    /** What a text says: its head, its names and its statements, up to the first error. */
+    private static final class Text {
+        int code = 0;
+        /** The position of the error; NONE without one. */
+        int position = NONE;
+        int blocks = MIN_BLOCKS;
+        int spare = 0;
+        int fileCount = 0;
+        final long[] names = new long[MAX_FILES];
+        /** The statements that are done on the disc: all but those that tell a file. */
+        int count = 0;
+        private final int[] kinds = new int[MAX_STATEMENTS];
+        private final int[] starts = new int[MAX_STATEMENTS];
+        private final int[] targets = new int[MAX_STATEMENTS];
+        private final int[] lengths = new int[MAX_STATEMENTS];
+        private final int[] tags = new int[MAX_STATEMENTS];
+        private final boolean[] bad = new boolean[MAX_BLOCKS];
+        private final Tokens tokens = new Tokens();
+        /** The token that is read last; an error is one of this token. */
+        private int token = 0;
+
+        void read(Input input, int length) {
+            code = 0;
+            position = NONE;
+            blocks = MIN_BLOCKS;
+            spare = 0;
+            fileCount = 0;
+            count = 0;
+            fill(bad, false);
+            tokens.read(input, length);
+            token = 0;
+            boolean going = readHead();
+            while (going && token < tokens.count - 1) {
+                token++;
+                going = readStatement() && readSemicolon();
             }
+            if (!going) {
+                position = tokens.startOf(token);
+            }
+        }
+
+        /** A statement that the disc refuses: an error of its first word. */
+        void refuseStatement(int n) {
+            code = REFUSED;
+            position = at(starts, n, NONE);
+        }
+
+        int kindOf(int n) {
+            return at(kinds, n, NONE);
+        }
+
+        /** The block or the file that a statement names. */
+        int targetOf(int n) {
+            return at(targets, n, NONE);
+        }
+
+        int lengthOf(int n) {
+            return at(lengths, n, 0);
+        }
+
+        int tagOf(int n) {
+            return at(tags, n, 0);
+        }
+
+        private boolean fail(int errorCode) {
+            code = errorCode;
+            return false;
+        }
+
+        private boolean readHead() {
+            if (!isWord("disc")) {
+                return fail(BAD_TOKEN);
+            }
+            if (!readNumber(MIN_BLOCKS, MAX_BLOCKS)) {
+                return false;
+            }
+            blocks = tokens.numberOf(token);
+            if (!readNumber(0, Math.min(MAX_SPARE, blocks / 2))) {
+                return false;
+            }
+            spare = tokens.numberOf(token);
+            return readSemicolon();
+        }
+
+        private boolean readStatement() {
+            if (isWord("bad")) {
+                return readBad();
+            }
+            if (isWord("file")) {
+                return readNewFile();
+            }
+            if (isWord("write")) {
+                return readWrite();
+            }
+            if (isWord("erase")) {
+                return readErase();
+            }
+            if (isWord("close")) {
+                return add(CLOSE_STATEMENT, tokens.startOf(token), NONE);
+            }
+            return fail(BAD_TOKEN);
+        }
+
+        private boolean readBad() {
+            int start = tokens.startOf(token);
+            if (!readNumber(0, blocks - 1)) {
+                return false;
+            }
+            int block = tokens.numberOf(token);
+            if (isSet(bad, block)) {
+                return fail(KNOWN_ALREADY);
+            }
+            mark(bad, block, true);
+            return add(BAD_STATEMENT, start, block);
+        }
+
+        private boolean readNewFile() {
+            if (fileCount >= MAX_FILES) {
+                return fail(TOO_MANY_FILES);
+            }
+            token++;
+            if (tokens.kindOf(token) != WORD_TOKEN) {
+                return fail(BAD_TOKEN);
+            }
+            long name = tokens.wordOf(token);
+            if (indexOf(names, fileCount, name) != NONE) {
+                return fail(KNOWN_ALREADY);
+            }
+            put(names, fileCount, name);
+            fileCount++;
+            return true;
+        }
+
+        private boolean readWrite() {
+            int start = tokens.startOf(token);
+            int file = readFile();
+            if (file == NONE || !readNumber(1, MAX_LENGTH)) {
+                return false;
+            }
+            int length = tokens.numberOf(token);
+            if (!readNumber(0, MAX_TAG)) {
+                return false;
+            }
+            put(lengths, count, length);
+            put(tags, count, tokens.numberOf(token));
+            return add(WRITE_STATEMENT, start, file);
+        }
+
+        private boolean readErase() {
+            int start = tokens.startOf(token);
+            int file = readFile();
+            return file != NONE && add(ERASE_STATEMENT, start, file);
+        }
+
+        private boolean add(int kind, int start, int target) {
+            put(kinds, count, kind);
+            put(starts, count, start);
+            put(targets, count, target);
+            count++;
+            return true;
+        }
+
+        private boolean isWord(String wanted) {
+            return tokens.kindOf(token) == WORD_TOKEN && tokens.wordOf(token) == packed(wanted);
+        }
+
+        /** Reads the name of an earlier file; NONE if this fails. */
+        private int readFile() {
+            token++;
+            if (tokens.kindOf(token) != WORD_TOKEN) {
+                fail(BAD_TOKEN);
+                return NONE;
+            }
+            int file = indexOf(names, fileCount, tokens.wordOf(token));
+            if (file == NONE) {
+                fail(UNKNOWN_FILE);
+            }
+            return file;
+        }
+
+        private boolean readNumber(int least, int greatest) {
+            token++;
+            if (tokens.kindOf(token) != NUMBER_TOKEN) {
+                return fail(BAD_TOKEN);
+            }
+            int number = tokens.numberOf(token);
+            return number >= least && number <= greatest || fail(OUT_OF_RANGE);
+        }
+
+        private boolean readSemicolon() {
+            token++;
+            return tokens.kindOf(token) == SEMICOLON_TOKEN || fail(BAD_TOKEN);
         }
     }
 }
