@@ -426,6 +426,10 @@ public final class OnceDisc {
         return word * 27 + (letter - 'a' + 1);
     }
 
+    private static boolean isLetter(int value) {
+        return value >= 'a' && value <= 'z';
+    }
+
     private static long packed(String word) {
         long result = 0;
         for (int i = 0; i < word.length(); i++) {
@@ -537,42 +541,35 @@ public final class OnceDisc {
             return at(bytes, index, NONE);
         }
 
-        boolean hasLetterAt(int index) {
+        /** The kind of token that a byte can be a part of; END_TOKEN for what parts tokens. */
+        int kindAt(int index) {
             int value = byteAt(index);
-            return value >= 'a' && value <= 'z';
-        }
-
-        boolean hasDigitAt(int index) {
-            int value = byteAt(index);
-            return value >= '0' && value <= '9';
-        }
-
-        boolean hasBlankAt(int index) {
-            int value = byteAt(index);
-            return value == ' ' || value == '\n';
-        }
-
-        /** The number of the word from start on, to the letter ahead of end. */
-        long wordBetween(int start, int end) {
-            long word = 0;
-            for (int i = start; i < end && i < start + MAX_LETTERS; i++) {
-                word = withLetter(word, byteAt(i));
+            if (isLetter(value)) {
+                return WORD_TOKEN;
             }
-            return word;
+            if (value >= '0' && value <= '9') {
+                return NUMBER_TOKEN;
+            }
+            if (value == ' ' || value == '\n') {
+                return END_TOKEN;
+            }
+            return value == ';' ? SEMICOLON_TOKEN : INVALID_TOKEN;
         }
 
-        /** The only word of the buffer, if spaces stand behind it and nothing else stands in it. */
+        /** The word at the start of the buffer, if spaces alone stand behind it. */
         long nameAlone() {
-            int end = 0;
-            while (end < used && hasLetterAt(end)) {
-                end++;
-            }
-            for (int i = end; i < used; i++) {
-                if (byteAt(i) != ' ') {
+            int letters = 0;
+            long word = 0;
+            for (int index = 0; index < used; index++) {
+                int value = byteAt(index);
+                if (isLetter(value) && letters == index) {
+                    letters++;
+                    word = withLetter(word, value);
+                } else if (value != ' ') {
                     return NONE;
                 }
             }
-            return end >= 1 && end <= MAX_LETTERS ? wordBetween(0, end) : NONE;
+            return letters >= 1 && letters <= MAX_LETTERS ? word : NONE;
         }
     }
 
@@ -1350,23 +1347,25 @@ public final class OnceDisc {
         private int length = 0;
         private final int[] kinds = new int[MAX_TEXT];
         private final int[] starts = new int[MAX_TEXT];
-        private final int[] numbers = new int[MAX_TEXT];
-        private final long[] words = new long[MAX_TEXT];
+        // What a word or a number is; nothing of use for an invalid token.
+        private final long[] values = new long[MAX_TEXT];
 
         void read(Input input, int textLength) {
             length = textLength;
             count = 0;
-            int start = 0;
-            while (start < length) {
-                int end = start + 1;
-                if (input.hasLetterAt(start)) {
-                    end = takeWord(input, start);
-                } else if (input.hasDigitAt(start)) {
-                    end = takeNumber(input, start);
-                } else if (!input.hasBlankAt(start)) {
-                    add(input.byteAt(start) == ';' ? SEMICOLON_TOKEN : INVALID_TOKEN, start);
+            int before = END_TOKEN;
+            for (int index = 0; index < length; index++) {
+                int kind = input.kindAt(index);
+                boolean inRun = kind == before && (kind == WORD_TOKEN || kind == NUMBER_TOKEN);
+                if (kind != END_TOKEN && !inRun) {
+                    begin(kind, index);
                 }
-                start = end;
+                if (kind == WORD_TOKEN) {
+                    takeLetter(input.byteAt(index), index);
+                } else if (kind == NUMBER_TOKEN) {
+                    takeDigit(input.byteAt(index), index);
+                }
+                before = kind;
             }
         }
 
@@ -1381,40 +1380,34 @@ public final class OnceDisc {
         }
 
         int numberOf(int token) {
-            return at(numbers, token, 0);
+            return (int) at(values, token, NONE);
         }
 
-        long wordOf(int token) {
-            return at(words, token, NONE);
+        long valueOf(int token) {
+            return at(values, token, NONE);
         }
 
-        private void add(int kind, int start) {
+        private void begin(int kind, int start) {
             put(kinds, count, kind);
             put(starts, count, start);
+            put(values, count, 0);
             count++;
         }
 
-        private int takeWord(Input input, int start) {
-            int end = start;
-            while (end < length && input.hasLetterAt(end)) {
-                end++;
+        private void takeLetter(int letter, int index) {
+            int token = count - 1;
+            put(values, token, withLetter(valueOf(token), letter));
+            if (index - startOf(token) >= MAX_LETTERS) {
+                put(kinds, token, INVALID_TOKEN);
             }
-            put(words, count, input.wordBetween(start, end));
-            add(end - start <= MAX_LETTERS ? WORD_TOKEN : INVALID_TOKEN, start);
-            return end;
         }
 
-        private int takeNumber(Input input, int start) {
-            int end = start;
-            int number = 0;
-            while (end < length && input.hasDigitAt(end)) {
-                // A longer run is no number, whatever comes out here.
-                number = number * 10 + (input.byteAt(end) - '0');
-                end++;
+        private void takeDigit(int digit, int index) {
+            int token = count - 1;
+            put(values, token, valueOf(token) * 10 + (digit - '0'));
+            if (index - startOf(token) >= MAX_DIGITS) {
+                put(kinds, token, INVALID_TOKEN);
             }
-            put(numbers, count, number);
-            add(end - start <= MAX_DIGITS ? NUMBER_TOKEN : INVALID_TOKEN, start);
-            return end;
         }
     }
 
@@ -1542,7 +1535,7 @@ public final class OnceDisc {
             if (tokens.kindOf(token) != WORD_TOKEN) {
                 return fail(BAD_TOKEN);
             }
-            long name = tokens.wordOf(token);
+            long name = tokens.valueOf(token);
             if (indexOf(names, fileCount, name) != NONE) {
                 return fail(KNOWN_ALREADY);
             }
@@ -1581,7 +1574,7 @@ public final class OnceDisc {
         }
 
         private boolean isWord(String wanted) {
-            return tokens.kindOf(token) == WORD_TOKEN && tokens.wordOf(token) == packed(wanted);
+            return tokens.kindOf(token) == WORD_TOKEN && tokens.valueOf(token) == packed(wanted);
         }
 
         /** Reads the name of an earlier file; NONE if this fails. */
@@ -1591,7 +1584,7 @@ public final class OnceDisc {
                 fail(BAD_TOKEN);
                 return NONE;
             }
-            int file = indexOf(names, fileCount, tokens.wordOf(token));
+            int file = indexOf(names, fileCount, tokens.valueOf(token));
             if (file == NONE) {
                 fail(UNKNOWN_FILE);
             }

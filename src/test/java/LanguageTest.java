@@ -1,0 +1,301 @@
+import com.sun.source.tree.ArrayAccessTree;
+import com.sun.source.tree.AssertTree;
+import com.sun.source.tree.BinaryTree;
+import com.sun.source.tree.ClassTree;
+import com.sun.source.tree.CompilationUnitTree;
+import com.sun.source.tree.CompoundAssignmentTree;
+import com.sun.source.tree.ExpressionTree;
+import com.sun.source.tree.ImportTree;
+import com.sun.source.tree.InstanceOfTree;
+import com.sun.source.tree.LambdaExpressionTree;
+import com.sun.source.tree.LineMap;
+import com.sun.source.tree.LiteralTree;
+import com.sun.source.tree.MemberReferenceTree;
+import com.sun.source.tree.MethodInvocationTree;
+import com.sun.source.tree.MethodTree;
+import com.sun.source.tree.NewArrayTree;
+import com.sun.source.tree.NewClassTree;
+import com.sun.source.tree.SynchronizedTree;
+import com.sun.source.tree.ThrowTree;
+import com.sun.source.tree.Tree;
+import com.sun.source.tree.TryTree;
+import com.sun.source.tree.TypeCastTree;
+import com.sun.source.tree.VariableTree;
+import com.sun.source.util.JavacTask;
+import com.sun.source.util.TreePath;
+import com.sun.source.util.TreePathScanner;
+import com.sun.source.util.Trees;
+import java.nio.file.Files;
+import java.nio.file.Path;
+import java.util.HashMap;
+import java.util.List;
+import java.util.Map;
+import java.util.Set;
+import java.util.TreeMap;
+import java.util.TreeSet;
+import javax.lang.model.element.Element;
+import javax.lang.model.element.ElementKind;
+import javax.lang.model.element.Modifier;
+import javax.lang.model.element.VariableElement;
+import javax.lang.model.type.TypeMirror;
+import javax.tools.JavaCompiler;
+import javax.tools.StandardJavaFileManager;
+import javax.tools.ToolProvider;
+
+/** Those rules of LANGUAGE.md that the compiler's tree of the file can tell, by their numbers there. */
+public final class LanguageTest extends TreePathScanner<Void, Void> {
+    private static final Path FILE = Path.of("src/main/java/OnceDisc.java");
+    private static final int DEEPEST = 8;
+    // The program needs no more of the library than this.
+    private static final Set<String> LIBRARY = Set.of("String.length", "String.charAt", "Math.min");
+    private static final Set<String> THROWN =
+        Set.of("IllegalStateException", "IllegalArgumentException", "IndexOutOfBoundsException");
+    // The only methods that use an index; each of them looks at it itself.
+    private static final Set<String> ROWS =
+        Set.of("at", "isSet", "put", "mark", "fill", "copy", "indexOf", "storeIn", "loadFrom");
+
+    private final Trees trees;
+    private final LineMap lines;
+    private final CompilationUnitTree unit;
+    private final Map<String, Set<String>> calls = new TreeMap<>();
+    private final Map<String, Integer> depths = new HashMap<>();
+    private int classes = 0;
+
+    private LanguageTest(Trees trees, CompilationUnitTree unit) {
+        this.trees = trees;
+        this.unit = unit;
+        this.lines = unit.getLineMap();
+    }
+
+    public static void main(String[] args) throws Exception {
+        JavaCompiler compiler = ToolProvider.getSystemJavaCompiler();
+        try (StandardJavaFileManager files = compiler.getStandardFileManager(null, null, null)) {
+            JavacTask task = (JavacTask) compiler.getTask(null, files, null, List.of("-proc:none"), null,
+                files.getJavaFileObjects(FILE));
+            CompilationUnitTree unit = task.parse().iterator().next();
+            task.analyze();
+            new LanguageTest(Trees.instance(task), unit).run();
+        }
+        for (char sign : Files.readString(FILE).toCharArray()) {
+            Check.isTrue("rule 3: the sign " + (int) sign + " is one of 1 to 127", sign >= 1 && sign <= 127);
+        }
+        Check.end();
+    }
+
+    private void run() {
+        scan(unit, null);
+        Check.isTrue("rule 1: the file has no package line", unit.getPackageName() == null);
+        Check.isTrue("rule 11: " + classes + " classes are at most 12", classes <= 12);
+        for (String method : calls.keySet()) {
+            int depth = depthOf(method, new TreeSet<>());
+            Check.isTrue("rule 11: the calls from " + method + " go " + depth + " deep", depth <= DEEPEST);
+        }
+    }
+
+    private int depthOf(String method, Set<String> open) {
+        if (!depths.containsKey(method)) {
+            Check.isTrue("rule 8: " + method + " is no recursion", open.add(method));
+            int deepest = 0;
+            for (String called : open.size() < 100 ? calls.getOrDefault(method, Set.of()) : Set.<String>of()) {
+                deepest = Math.max(deepest, depthOf(called, open));
+            }
+            open.remove(method);
+            depths.put(method, deepest + 1);
+        }
+        return depths.get(method);
+    }
+
+    private void rule(int number, Tree tree, String what, boolean kept) {
+        long line = lines.getLineNumber(trees.getSourcePositions().getStartPosition(unit, tree));
+        Check.isTrue("rule " + number + ", line " + line + ": " + what, kept);
+    }
+
+    private Element element(Tree tree) {
+        return trees.getElement(new TreePath(getCurrentPath(), tree));
+    }
+
+    private TypeMirror type(Tree tree) {
+        return trees.getTypeMirror(new TreePath(getCurrentPath(), tree));
+    }
+
+    /** A method's class, name and parameters. */
+    private static String nameOf(Element method) {
+        return method.getEnclosingElement().getSimpleName() + "." + method;
+    }
+
+    private MethodTree methodAround() {
+        for (TreePath path = getCurrentPath(); path != null; path = path.getParentPath()) {
+            if (path.getLeaf() instanceof MethodTree method) {
+                return method;
+            }
+        }
+        return null;
+    }
+
+    private void noteCall(Element called) {
+        MethodTree caller = methodAround();
+        if (caller != null && isOwn(called)) {
+            calls.get(nameOf(trees.getElement(trees.getPath(unit, caller)))).add(nameOf(called));
+        }
+    }
+
+    private static boolean isOwn(Element element) {
+        Element outer = element;
+        while (outer.getEnclosingElement().getKind() != ElementKind.PACKAGE) {
+            outer = outer.getEnclosingElement();
+        }
+        return outer.getSimpleName().contentEquals("OnceDisc");
+    }
+
+    @Override
+    public Void visitClass(ClassTree tree, Void unused) {
+        classes++;
+        int fields = 0;
+        for (Tree member : tree.getMembers()) {
+            if (member instanceof VariableTree field && !field.getModifiers().getFlags().contains(Modifier.STATIC)) {
+                fields++;
+            }
+            rule(5, member, "no static initialiser", member.getKind() != Tree.Kind.BLOCK);
+        }
+        rule(11, tree, "a class has at most 20 fields", fields <= 20);
+        return super.visitClass(tree, unused);
+    }
+
+    @Override
+    public Void visitMethod(MethodTree tree, Void unused) {
+        calls.put(nameOf(trees.getElement(getCurrentPath())), new TreeSet<>());
+        long first = lines.getLineNumber(trees.getSourcePositions().getStartPosition(unit, tree));
+        long last = lines.getLineNumber(trees.getSourcePositions().getEndPosition(unit, tree));
+        rule(11, tree, tree.getName() + " has at most 60 lines", last - first < 60);
+        rule(11, tree, tree.getName() + " has at most 7 parameters", tree.getParameters().size() <= 7);
+        return super.visitMethod(tree, unused);
+    }
+
+    @Override
+    public Void visitMethodInvocation(MethodInvocationTree tree, Void unused) {
+        Element called = element(tree.getMethodSelect());
+        noteCall(called);
+        String name = called.getEnclosingElement().getSimpleName() + "." + called.getSimpleName();
+        boolean implicit = called.getSimpleName().contentEquals("<init>");
+        rule(4, tree, name + " is of the library that is allowed", implicit || isOwn(called) || LIBRARY.contains(name));
+        return super.visitMethodInvocation(tree, unused);
+    }
+
+    @Override
+    public Void visitNewClass(NewClassTree tree, Void unused) {
+        Element made = element(tree);
+        String name = made.getEnclosingElement().getSimpleName().toString();
+        noteCall(made);
+        rule(6, tree, "new " + name, isOwn(made) || THROWN.contains(name) && tree.getArguments().size() <= 1);
+        for (ExpressionTree argument : isOwn(made) ? List.<ExpressionTree>of() : tree.getArguments()) {
+            rule(6, tree, "the text of an exception is written", argument instanceof LiteralTree);
+        }
+        return super.visitNewClass(tree, unused);
+    }
+
+    @Override
+    public Void visitNewArray(NewArrayTree tree, Void unused) {
+        for (ExpressionTree dimension : tree.getDimensions()) {
+            boolean fixed = dimension instanceof LiteralTree || dimension instanceof BinaryTree
+                || isConstant(element(dimension));
+            rule(12, tree, "a row is made with a length that is written", fixed);
+        }
+        rule(12, tree, "rows are made in constructors alone", methodAround() == null);
+        return super.visitNewArray(tree, unused);
+    }
+
+    private static boolean isConstant(Element element) {
+        return element instanceof VariableElement field && field.getConstantValue() != null;
+    }
+
+    @Override
+    public Void visitArrayAccess(ArrayAccessTree tree, Void unused) {
+        MethodTree method = methodAround();
+        rule(7, tree, "an index is used only where it is looked at",
+            method != null && ROWS.contains(method.getName().toString()));
+        return super.visitArrayAccess(tree, unused);
+    }
+
+    @Override
+    public Void visitBinary(BinaryTree tree, Void unused) {
+        boolean divides = tree.getKind() == Tree.Kind.DIVIDE || tree.getKind() == Tree.Kind.REMAINDER;
+        if (divides && !type(tree).toString().equals("double")) {
+            ExpressionTree divisor = tree.getRightOperand();
+            rule(7, tree, "a divisor is a constant", divisor instanceof LiteralTree || isConstant(element(divisor)));
+        }
+        rule(10, tree, "texts are not joined by +", !type(tree).toString().equals("java.lang.String"));
+        return super.visitBinary(tree, unused);
+    }
+
+    @Override
+    public Void visitCompoundAssignment(CompoundAssignmentTree tree, Void unused) {
+        boolean divides = tree.getKind() == Tree.Kind.DIVIDE_ASSIGNMENT
+            || tree.getKind() == Tree.Kind.REMAINDER_ASSIGNMENT;
+        rule(7, tree, "no division with an assignment", !divides);
+        rule(10, tree, "texts are not joined by +=", !type(tree.getVariable()).toString().equals("java.lang.String"));
+        return super.visitCompoundAssignment(tree, unused);
+    }
+
+    @Override
+    public Void visitVariable(VariableTree tree, Void unused) {
+        Set<Modifier> flags = tree.getModifiers().getFlags();
+        rule(5, tree, "a static field is a constant", !flags.contains(Modifier.STATIC)
+            || isConstant(trees.getElement(getCurrentPath())));
+        return super.visitVariable(tree, unused);
+    }
+
+    @Override
+    public Void visitTypeCast(TypeCastTree tree, Void unused) {
+        rule(6, tree, "a cast is one of numbers", type(tree).getKind().isPrimitive());
+        return super.visitTypeCast(tree, unused);
+    }
+
+    @Override
+    public Void visitThrow(ThrowTree tree, Void unused) {
+        MethodTree method = methodAround();
+        rule(6, tree, "no throw in a constructor", method != null && method.getReturnType() != null);
+        return super.visitThrow(tree, unused);
+    }
+
+    @Override
+    public Void visitImport(ImportTree tree, Void unused) {
+        rule(4, tree, "no import", false);
+        return null;
+    }
+
+    @Override
+    public Void visitLambdaExpression(LambdaExpressionTree tree, Void unused) {
+        rule(2, tree, "no lambda", false);
+        return null;
+    }
+
+    @Override
+    public Void visitMemberReference(MemberReferenceTree tree, Void unused) {
+        rule(2, tree, "no method reference", false);
+        return null;
+    }
+
+    @Override
+    public Void visitTry(TryTree tree, Void unused) {
+        rule(6, tree, "no try: nothing here throws for itself", false);
+        return null;
+    }
+
+    @Override
+    public Void visitSynchronized(SynchronizedTree tree, Void unused) {
+        rule(6, tree, "no synchronized", false);
+        return null;
+    }
+
+    @Override
+    public Void visitAssert(AssertTree tree, Void unused) {
+        rule(6, tree, "no assert", false);
+        return null;
+    }
+
+    @Override
+    public Void visitInstanceOf(InstanceOfTree tree, Void unused) {
+        rule(6, tree, "no instanceof is needed", false);
+        return null;
+    }
+}
