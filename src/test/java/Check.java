@@ -3,6 +3,7 @@ import java.util.function.LongSupplier;
 /** What the tests share: they compare answers, count the wrong ones, and put texts into a disc. */
 final class Check {
     private static int wrong = 0;
+    private static String topic = "";
 
     private Check() {
     }
@@ -49,8 +50,13 @@ final class Check {
     static void report(String line) {
         wrong++;
         if (wrong <= 50) {
-            System.out.println(line);
+            System.out.println(topic.isEmpty() ? line : topic + "\n    " + line);
         }
+    }
+
+    /** What the next answers are about, for the reports. */
+    static void about(String nextTopic) {
+        topic = nextTopic;
     }
 
     static boolean hasFailed() {
