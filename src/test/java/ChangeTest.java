@@ -1,3 +1,6 @@
+import java.util.List;
+import java.util.function.Consumer;
+
 /** Promises 23 to 32: the changes, undo and snapshots. */
 public final class ChangeTest {
     public static void main(String[] args) {
@@ -253,28 +256,24 @@ public final class ChangeTest {
     }
 
     private static void promise30Each() {
-        OnceDisc disc = Check.disc("disc 30 4;file a;file b;bad 2;bad 26;write b 1 1;close;");
-        String[] states = new String[9];
-        for (int step = 0; step < 8; step++) {
-            states[step] = state(disc);
-            switch (step) {
-                case 0: disc.write(0, 3, 8); break;
-                case 1: disc.erase(1); break;
-                case 2: disc.crash(); break;
-                case 3: disc.recover(); break;
-                case 4: disc.setScan(true); break;
-                case 5: disc.scratch(6); disc.undo(); disc.scratch(1); break;
-                case 6: disc.erase(0); break;
-                default: disc.close(); break;
+        List<Consumer<OnceDisc>> changes = List.of(disc -> disc.write(0, 3, 8), disc -> disc.erase(1), OnceDisc::crash,
+            OnceDisc::recover, disc -> disc.setScan(true), disc -> disc.scratch(1), disc -> disc.erase(0), OnceDisc::close);
+        for (int kept = changes.size() - 1; kept >= 0; kept--) {
+            OnceDisc disc = changed(changes);
+            for (int n = changes.size() - 1; n >= kept; n--) {
+                Check.equal("undo", disc.undo(), n);
             }
-        }
-        for (int step = 7; step >= 0; step--) {
-            Check.equal("undo", disc.undo(), step);
-            Check.equal("the state after undo " + step, state(disc), states[step]);
+            Check.equal("the state with " + kept + " changes", state(disc), state(changed(changes.subList(0, kept))));
         }
     }
 
-    /** Everything that changes can change, as a text. */
+    private static OnceDisc changed(List<Consumer<OnceDisc>> changes) {
+        OnceDisc disc = Check.disc("disc 30 4;file a;file b;bad 2;bad 26;write b 1 1;close;");
+        changes.forEach(change -> change.accept(disc));
+        return disc;
+    }
+
+    /** Everything that changes can change, as a text; some 360 calls. */
     private static String state(OnceDisc disc) {
         StringBuilder text = new StringBuilder();
         for (int what = 0; what <= 12; what++) {
@@ -322,41 +321,35 @@ public final class ChangeTest {
     }
 
     private static void promise32() {
-        OnceDisc disc = Check.disc("disc 30 4;file a;file b;bad 1;write a 2 3;close;");
-        disc.setScan(true);
+        List<Consumer<OnceDisc>> saved = List.of(disc -> disc.setScan(true), disc -> disc.erase(1),
+                disc -> disc.scratch(20),
+            disc -> disc.write(0, 2, 4), disc -> disc.write(1, 1, 5));
+        OnceDisc disc = changed(saved);
         Check.state("an empty slot", () -> disc.restoreSnapshot(0));
-        Check.equal("the history is there still", disc.size(11), 1);
-        String before = state(disc);
+        Check.equal("the history is there still", disc.size(11), 5);
         disc.saveSnapshot(0);
         disc.write(1, 3, 3);
         disc.scratch(0);
-        disc.scratch(20);
+        disc.scratch(21);
         disc.crash();
         disc.recover();
         disc.setScan(false);
-        Check.equal("restoreSnapshot", disc.restoreSnapshot(0), 1);
-        Check.equal("the state", state(disc), before);
+        Check.equal("restoreSnapshot", disc.restoreSnapshot(0), 2);
         Check.equal("the history is cleared", disc.size(11), 0);
         Check.equal("nothing to undo", disc.undo(), -1);
         disc.erase(0);
         Check.equal("one change", disc.undo(), 0);
         disc.erase(0);
-        Check.equal("it stays stored", disc.restoreSnapshot(0), 1);
-        Check.equal("the state again", state(disc), before);
+        Check.equal("it stays stored", disc.restoreSnapshot(0), 2);
+        Check.equal("the state again", state(disc), state(changed(saved)));
         Check.state("the other slot is empty", () -> disc.restoreSnapshot(1));
-        restoresWhatWasWrittenOver();
         Check.index("restoreSnapshot(2)", () -> disc.restoreSnapshot(2));
         Check.index("restoreSnapshot(-1)", () -> disc.restoreSnapshot(-1));
+        restoresWhatWasWrittenOver(saved);
     }
 
-    private static void restoresWhatWasWrittenOver() {
-        OnceDisc disc = Check.disc("disc 30 4;file a;file b;");
-        disc.scratch(0);
-        disc.write(0, 2, 3);
-        disc.close();
-        disc.write(0, 1, 4);
-        disc.write(1, 1, 5);
-        String before = state(disc);
+    private static void restoresWhatWasWrittenOver(List<Consumer<OnceDisc>> saved) {
+        OnceDisc disc = changed(saved);
         disc.saveSnapshot(1);
         for (int n = 0; n < 5; n++) {
             disc.undo();
@@ -367,6 +360,6 @@ public final class ChangeTest {
         disc.write(0, 4, 7);
         disc.close();
         Check.equal("restoreSnapshot", disc.restoreSnapshot(1), 2);
-        Check.equal("the state", state(disc), before);
+        Check.equal("the state", state(disc), state(changed(saved)));
     }
 }

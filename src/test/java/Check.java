@@ -2,6 +2,7 @@ import java.util.function.LongSupplier;
 
 /** What the tests share: they compare answers, count the wrong ones, and put texts into a disc. */
 final class Check {
+    private static final int LINES = Integer.getInteger("lines", 50);
     private static int wrong = 0;
     private static String topic = "";
 
@@ -49,7 +50,7 @@ final class Check {
 
     static void report(String line) {
         wrong++;
-        if (wrong <= 50) {
+        if (wrong <= LINES) {
             System.out.println(topic.isEmpty() ? line : topic + "\n    " + line);
         }
     }

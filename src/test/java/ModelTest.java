@@ -68,7 +68,7 @@ public final class ModelTest {
     }
 
     private void change() {
-        int file = oneIn(20) ? upTo(14) - 2 : upTo(Math.max(1, disc.size(2)));
+        int file = oneIn(20) ? upTo(14) - 2 : upTo(Math.max(1, model.size(2)));
         int length = oneIn(20) ? upTo(14) - 2 : 1 + upTo(oneIn(3) ? 8 : 2);
         int tag = oneIn(20) ? upTo(1100) - 50 : upTo(1000);
         int block = block();
@@ -126,17 +126,17 @@ public final class ModelTest {
         }
         // Near next, or near the spare area, much more happens than elsewhere.
         switch (upTo(4)) {
-            case 0: return Math.max(0, disc.size(4) - upTo(8));
-            case 1: return Math.min(disc.size(0) - 1, disc.size(4) + upTo(4));
-            case 2: return disc.size(0) - 1 - upTo(Math.max(1, disc.size(1)));
-            default: return upTo(disc.size(0));
+            case 0: return Math.max(0, model.size(4) - upTo(8));
+            case 1: return Math.min(model.size(0) - 1, model.size(4) + upTo(4));
+            case 2: return model.size(0) - 1 - upTo(Math.max(1, model.size(1)));
+            default: return upTo(model.size(0));
         }
     }
 
     private void look() {
         int what = oneIn(15) ? upTo(18) - 2 : upTo(13);
-        int file = oneIn(20) ? upTo(14) - 2 : upTo(Math.max(1, disc.size(2)));
-        int session = oneIn(20) ? upTo(16) - 2 : upTo(Math.max(1, disc.size(3)));
+        int file = oneIn(20) ? upTo(14) - 2 : upTo(Math.max(1, model.size(2)));
+        int session = oneIn(20) ? upTo(16) - 2 : upTo(Math.max(1, model.size(3)));
         int block = block();
         int k = oneIn(20) ? -1 - upTo(3) : upTo(oneIn(5) ? 12 : 4);
         int length = upTo(11) - 1;

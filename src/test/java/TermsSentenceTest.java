@@ -60,7 +60,8 @@ public final class TermsSentenceTest {
         Sentence longer = of("A longer run, and any other byte, is an invalid token.")
             .on("", "parse \"disc 8 0;file abcdefghi;\" = 1 14", "parse \"disc 0008 0;\" = 1 5",
                 "parse \"disc 8 0000;\" = 1 7", "parse \"disc 16 0;file a;write a 1 0001;\" = 1 27",
-                "parse \"disccccccccccccccccc 8 0;\" = 1 0", "parse \"disc 8 00000000000000000000000000000000000000;\" = 1 7");
+                "parse \"disccccccccccccccccc 8 0;\" = 1 0",
+                "parse \"disc 8 00000000000000000000000000000000000000;\" = 1 7");
         for (char sign = 0; sign < 256; sign++) {
             boolean known = sign >= 'a' && sign <= 'z' || sign >= '0' && sign <= '9' || " \n;\"".indexOf(sign) >= 0;
             if (!known) {
@@ -97,15 +98,18 @@ public final class TermsSentenceTest {
             .on("disc 16 0;file disc;file bad;file file;file write;file erase;file close;write write 1 1;"
                 + "write close 1 2;erase write;close;", "find \"disc\" = 0", "find \"bad\" = 1", "find \"file\" = 2",
                 "find \"write\" = 3", "find \"erase\" = 4", "find \"close\" = 5", "file(*, 0) = 0 0 0 0 0 1")
-            .on("", "parse \"disc 8 0;write a 1 1;file a;\" = 4 15", "parse \"disc 8 0;file b;write a 1 1;file a;\" = 4 22");
+            .on("", "parse \"disc 8 0;write a 1 1;file a;\" = 4 15",
+                "parse \"disc 8 0;file b;write a 1 1;file a;\" = 4 22");
     }
 
     private static void ranges() {
-        of("blocks is 8 to 96,").on("", "parse \"disc 8 0;\" = 0", "size(0) = 8", "parse \"disc 96 0;\" = 0", "size(0) = 96",
+        of("blocks is 8 to 96,").on("", "parse \"disc 8 0;\" = 0", "size(0) = 8", "parse \"disc 96 0;\" = 0",
+                "size(0) = 96",
             "parse \"disc 7 0;\" = 3 5", "parse \"disc 97 0;\" = 3 5", "parse \"disc 0 0;\" = 3 5",
             "parse \"disc 999 0;\" = 3 5", "size(0) = 96");
         of("spare 0 to 16 and at most blocks / 2,")
-            .on("", "parse \"disc 96 16;\" = 0", "size(1) = 16", "parse \"disc 96 17;\" = 3 8", "parse \"disc 96 999;\" = 3 8",
+            .on("", "parse \"disc 96 16;\" = 0", "size(1) = 16", "parse \"disc 96 17;\" = 3 8",
+                "parse \"disc 96 999;\" = 3 8",
                 "parse \"disc 33 16;\" = 0", "parse \"disc 32 16;\" = 0", "parse \"disc 31 16;\" = 3 8",
                 "parse \"disc 31 15;\" = 0", "size(1) = 15")
             .on("", "parse \"disc 8 0;\" = 0", "size(1) = 0", "parse \"disc 8 4;\" = 0", "size(1) = 4",
@@ -114,7 +118,8 @@ public final class TermsSentenceTest {
         of("block 0 to blocks - 1,")
             .on("disc 8 0;bad 0;bad 7;", "block(*, 1) = 1 0 0 0 0 0 0 1")
             .on("disc 8 4;bad 4;bad 7;", "block(*, 1) = 0 0 0 0 1 0 0 1")
-            .on("", "parse \"disc 8 0;bad 8;\" = 3 13", "parse \"disc 8 4;bad 8;\" = 3 13", "parse \"disc 8 0;bad 999;\" = 3 13",
+            .on("", "parse \"disc 8 0;bad 8;\" = 3 13", "parse \"disc 8 4;bad 8;\" = 3 13",
+                "parse \"disc 8 0;bad 999;\" = 3 13",
                 "parse \"disc 96 0;bad 95;\" = 0", "parse \"disc 96 0;bad 96;\" = 3 14");
         of("length 1 to 8,")
             .on("disc 16 0;file a;write a 1 0;", "file(0, 3) = 1", "parse \"disc 16 0;file a;write a 8 0;\" = 0",
@@ -148,7 +153,8 @@ public final class TermsSentenceTest {
             .on("", "parse \"disc 8 0;?\" = 1 9", "parse \"disc 8 0;file a 7;\" = 1 16", "parse \"disc 8 0;bad\" = 1 12",
                 "parse(0) = 1", "errorPosition() = 0");
         of("2: a name that an earlier file has; a block that is bad already.")
-            .on("", "parse \"disc 8 0;file a;file b;file a;\" = 2 28", "parse \"disc 8 0;file ab;file a;file b;file ba;\" = 0",
+            .on("", "parse \"disc 8 0;file a;file b;file a;\" = 2 28",
+                "parse \"disc 8 0;file ab;file a;file b;file ba;\" = 0",
                 "parse \"disc 8 0;bad 1;bad 2;bad 1;\" = 2 25", "parse \"disc 8 0;bad 1;bad 001;\" = 2 19",
                 "parse \"disc 8 2;bad 0;file a;write a 1 1;bad 0;\" = 2 38",
                 "parse \"disc 8 2;bad 0;bad 6;file a;write a 1 1;bad 6;\" = 2 44",
@@ -164,7 +170,8 @@ public final class TermsSentenceTest {
                 "parse \"disc 8 0;file a;erase b;\" = 4 22", "parse \"disc 8 0;file ab;write a 1 1;\" = 4 23",
                 "parse \"disc 8 0;file a;write ab 1 1;\" = 4 22", "parse \"disc 8 0;write a 1 1;file a;\" = 4 15")
             // The names of an earlier text are forgotten.
-            .on("disc 8 0;file a;file b;", "parse \"disc 8 0;file b;write a 1 1;\" = 4 22", "parse \"disc 8 0;erase b;\" = 4 15");
+            .on("disc 8 0;file a;file b;", "parse \"disc 8 0;file b;write a 1 1;\" = 4 22",
+                "parse \"disc 8 0;erase b;\" = 4 15");
         of("5: the first word of the statement of an eleventh file.")
             .on("", "parse \"" + TEN + "file k;\" = 5 79", "parse \"" + TEN + "file a;\" = 5 79",
                 "parse \"" + TEN + "bad 1; file k;\" = 5 86", "parse \"" + TEN + "filed k;\" = 1 79");
@@ -191,7 +198,7 @@ public final class TermsSentenceTest {
             .on("", "parse \"disc 7 99\" = 3 5", "parse \"disc 8 0;bad 8 8 8;x\" = 3 13",
                 "parse \"disc 8 0;bad 1;bad 1;file;\" = 2 19", start + "file a;bad 9;\" = 2 21",
                 start + "write b 9 x\" = 4 22", "parse \"" + TEN + "file 7;\" = 5 79", "parse \"" + TEN + "file\" = 5 79",
-                start + "write a 1 1;close;close;bad 99;?\" = 6 34");
+                start + "write a 1 1;close;close;bad 99;?\" = 6 34", start + "close;erase a;write a 8 1;\" = 6 16");
         of("If several codes apply at one position, the smallest is reported.")
             .on("", "parse \"disc 1000 0;\" = 1 5", "parse \"disc 8 0;bad 1000;\" = 1 13",
                 "parse \"disc 8 0;write abcdefghi 1 1;\" = 1 15", "parse \"disc 8 0;erase abcdefghi;\" = 1 15",
@@ -210,7 +217,8 @@ public final class TermsSentenceTest {
                 "close() = 0", "size({4 5}) = 8 3", "write(0, 1, 1) throws IllegalState")
             .on("disc 8 0;file a;write a 7 1;close;", "size({1 4 5}) = 0 8 0", "place(*) = 0 1 2 3 4 5 6 7");
         of("A block is empty, data, a part of a directory, or failed.")
-            .on("disc 12 4;file a;bad 1;write a 2 1;close;", "block(*, 0) = 1 3 2 0 0 0 0 0 1 0 0 0", "space(*) = 8 2 0 1 1");
+            .on("disc 12 4;file a;bad 1;write a 2 1;close;", "block(*, 0) = 1 3 2 0 0 0 0 0 1 0 0 0",
+                "space(*) = 8 2 0 1 1");
         of("Only an empty block can be written.")
             .on("disc 12 2;file a;bad 0;bad 3;", "write(0, 2, 1) = 0", "crash() = 2", "write(0, 2, 2) = 1", "close() = 1",
                 "block(*, 4) = -1 0 1 -1 -1 -1 -1 -1 -1 -1 0 1", "block(*, 3) = 0 0 1 1 1 -1 -1 -1 -1 -1 0 1",
@@ -308,11 +316,14 @@ public final class TermsSentenceTest {
             + "the versions, are the entries of a new session, which writes nothing but its directory and is closed "
             + "at once.")
             .on("disc 40 2;" + FIVE + "file f;", "write(3, 2, 0)", "write(0, 2, 10)", "write(5, 2, 20)", "write(0, 2, 30)",
-                "write(1, 2, 40)", "write(3, 2, 50)", "write(2, 2, 60)", "write(4, 2, 70)", "crash() = 16", "scratch({11 14})",
+                "write(1, 2, 40)", "write(3, 2, 50)", "write(2, 2, 60)", "write(4, 2, 70)", "crash() = 16",
+                "scratch({11 14})",
                 "recover() = 5", "entry(1, *, 1) = 0 2 3 4 6 -1", "entry(1, *, 0) = 3 5 0 1 2 -1",
-                "entry(1, *, 2) = 0 4 6 8 12 -1", "entry(1, *, 4) = 0 20 30 40 60 -1", "session(1, *) = 1 16 2 5 16 1 -1 1 0",
+                "entry(1, *, 2) = 0 4 6 8 12 -1", "entry(1, *, 4) = 0 20 30 40 60 -1",
+                "session(1, *) = 1 16 2 5 16 1 -1 1 0",
                 "size({4 9 12}) = 18 0 8")
-            .on("disc 20 2;file a;file b;bad 0;bad 1;write a 1 1;write b 1 1;", "crash()", "scratch({0 19})", "recover() = 1",
+            .on("disc 20 2;file a;file b;bad 0;bad 1;write a 1 1;write b 1 1;", "crash()", "scratch({0 19})",
+                "recover() = 1",
                 "entry(1, {0 1}, 0) = 0 -1")
             // What the session erased is not told; what an earlier lost session wrote is not sought.
             .on("disc 20 2;file a;file b;write b 1 1;close;write a 1 1;", "crash() = 1", "write(1, 1, 2)", "erase(1) = 0",
@@ -341,7 +352,8 @@ public final class TermsSentenceTest {
             + "there if that entry is a version.")
             .on("disc 40 0;file a;file b;file c;write a 1 1;write b 1 2;write c 1 3;close;write b 1 4;erase c;close;",
                 "file(*, 5) = 0 1 1", "file(*, 2) = 0 3 -1", "file(*, 0) = 1 1 0", "setScan(true)", "scratch(5)",
-                "file(*, 5) = 0 0 0", "file(*, 2) = 0 1 2", "write(0, 1, 5) = 4", "file(*, 5) = 2 0 0", "file(*, 2) = 4 1 2");
+                "file(*, 5) = 0 0 0", "file(*, 2) = 0 1 2", "write(0, 1, 5) = 4", "file(*, 5) = 2 0 0",
+                "file(*, 2) = 4 1 2");
         of("It is readable if the places of all its blocks are readable.")
             .on("disc 20 2;file a;bad 1;write a 3 5;", "scratch({1 3 19})", "file(0, {0 1}) = 1 1", "scratch(18)",
                 "file(0, {0 1}) = 1 0", "undo()", "file(0, 1) = 1", "scratch(0)", "file(0, 1) = 0", "undo()", "scratch(2)",
@@ -375,7 +387,8 @@ public final class TermsSentenceTest {
         of("3 there are 12 sessions already, and one more would begin;")
             .on("disc 40 0;file a;", "11 times: write(0, 1, 1); close()", "size(3) = 11", "whyNotWrite(0, 1) = 0",
                 "write(0, 1, 1)", "size(3) = 12", "whyNotWrite(0, 1) = 0", "write(0, 1, 1)", "erase(0)", "write(0, 1, 2)",
-                "close() = 11", "whyNotWrite(0, 1) = 3", "write(0, 1, 1) throws IllegalState", "erase(0) throws IllegalState")
+                "close() = 11", "whyNotWrite(0, 1) = 3", "write(0, 1, 1) throws IllegalState",
+                "erase(0) throws IllegalState")
             .on("disc 40 0;file a;", "11 times: write(0, 1, 1); crash()", "whyNot(2) = 0", "recover() = 1", "size(3) = 12",
                 "whyNotWrite(0, 1) = 3")
             .on("disc 40 0;file a;", "12 times: write(0, 1, 1); crash()", "whyNot(2) = 3", "recover() throws IllegalState",
@@ -384,13 +397,17 @@ public final class TermsSentenceTest {
 
     private static void refusals() {
         of("4 the main area has not room for what is written and for the directory that the session would need then;")
-            .on("disc 8 0;file a;", "whyNotWrite(0, {7 8}) = 0 4", "write(0, 8, 1) throws IllegalState", "write(0, 7, 1) = 0",
+            .on("disc 8 0;file a;", "whyNotWrite(0, {7 8}) = 0 4", "write(0, 8, 1) throws IllegalState",
+                "write(0, 7, 1) = 0",
                 "close() = 0", "whyNotWrite(0, 1) = 4", "erase(0) throws IllegalState")
             .on("disc 8 4;file a;", "whyNotWrite(0, {3 4}) = 0 4")
             .on("disc 8 0;file a;write a 6 1;close;", "whyNotWrite(0, 1) = 4", "erase(0) = 0", "close() = 1",
                 "size(4) = 8")
             .on("disc 12 0;" + FIVE + "write a 1 1;write b 1 1;write c 1 1;", "whyNotWrite(3, 8) = 0",
                 "write(3, 1, 1)", "whyNotWrite(4, {6 7}) = 0 4", "whyNotWrite(3, {7 8}) = 0 4")
+            // A session that begins with it has one entry, whatever the one before it has.
+            .on("disc 10 0;" + FIVE, "write({0 1 2 3}, 1, 1)", "close()", "whyNotWrite(4, {4 5}) = 0 4",
+                "whyNotWrite(0, {4 5}) = 0 4", "write(4, 4, 1)", "close()", "size(4) = 10")
             .on("disc 12 0;" + FIVE + "write e 2 1;close;write a 2 1;write b 2 1;write c 2 1;write d 2 1;",
                 "erase(4) throws IllegalState", "erase(3) = 4", "close() = 1");
         of("5 too few blocks of the spare area are empty and not bad for what is written now.")
@@ -413,19 +430,23 @@ public final class TermsSentenceTest {
     private static void changes() {
         of("CHANGES. The methods from write to setScan are changes if they throw no exception, also if they alter nothing.")
             .on("disc 20 2;file a;file b;", "write(0, 1, 1)", "size(11) = 1", "erase(0)", "size(11) = 2", "close()",
-                "size(11) = 3", "write(0, 1, 1)", "crash()", "size(11) = 5", "recover()", "size(11) = 6", "scratch(15) = true",
+                "size(11) = 3", "write(0, 1, 1)", "crash()", "size(11) = 5", "recover()", "size(11) = 6",
+                "scratch(15) = true",
                 "size(11) = 7", "scratch(15) = false", "size(11) = 8", "setScan(false) = false", "size(11) = 9",
                 "close() throws IllegalState", "write(0, 9, 1) throws IllegalArgument", "erase(1) throws IllegalState",
                 "scratch(20) throws IndexOutOfBounds", "size(11) = 9", "saveSnapshot(0)", "find \"a\" = 0",
-                "parse \"disc 1 1;\" = 3 5", "size(11) = 9", "undo() = 8", "block(15, 1) = 1", "undo() = 7", "block(15, 1) = 1",
+                "parse \"disc 1 1;\" = 3 5", "size(11) = 9", "undo() = 8", "block(15, 1) = 1", "undo() = 7",
+                "block(15, 1) = 1",
                 "undo() = 6", "block(15, 1) = 0");
         of("The latest 10 changes can be undone, the latest first.")
-            .on("disc 30 2;file a;", "write(0, 1, 0)", "write(0, 1, {1 2 3 4 5 6 7 8 9})", "size(11) = 10", "write(0, 1, 10)",
+            .on("disc 30 2;file a;", "write(0, 1, 0)", "write(0, 1, {1 2 3 4 5 6 7 8 9})", "size(11) = 10",
+                "write(0, 1, 10)",
                 "size(11) = 10", "undo() = 9", "file(0, 4) = 9", "undo() = 8", "file(0, 4) = 8", "8 times: undo()",
                 "size(11) = 0", "file(0, 4) = 0", "undo() = -1", "file(0, 4) = 0");
         of("There are two snapshot slots, 0 and 1; a snapshot holds everything that changes can change.")
             .on("disc 20 2;file a;bad 0;write a 2 1;close;", "saveSnapshot({-1 2 max min}) throws IndexOutOfBounds",
-                "restoreSnapshot({-1 2 max min}) throws IndexOutOfBounds", "scratch({1 10})", "setScan(true)", "write(0, 1, 2)",
+                "restoreSnapshot({-1 2 max min}) throws IndexOutOfBounds", "scratch({1 10})", "setScan(true)",
+                "write(0, 1, 2)",
                 "saveSnapshot(0) = false", "close()", "saveSnapshot(1) = false", "erase(0)", "crash()", "setScan(false)",
                 "scratch({0 3 2 11})", "write(0, 3, 5)", "restoreSnapshot(0) = 2", "size(*) = 20 2 1 2 4 1 2 1 1 1 1 0 2",
                 "session(0, *) = 1 0 3 1 2 1 -1 1 1", "session(1, *) = 0 3 1 1 -1 0 -1 1 0", "entry(1, 0, *) = 0 1 3 1 2",
@@ -459,7 +480,8 @@ public final class TermsSentenceTest {
                 "where({-1 2 max min}, 0) throws IndexOutOfBounds")
             .on("disc 12 2;file a;file b;write a 2 5;close;", "whyNotWrite({-1 2 max min}, 0) throws IndexOutOfBounds",
                 "risk({-1 12 max min}) throws IndexOutOfBounds", "filesBefore({-1 1 max min}) throws IndexOutOfBounds",
-                "spaceOf({-1 1 max min}, 0) throws IndexOutOfBounds", "write({-1 2 max min}, 0, -1) throws IndexOutOfBounds",
+                "spaceOf({-1 1 max min}, 0) throws IndexOutOfBounds",
+                "write({-1 2 max min}, 0, -1) throws IndexOutOfBounds",
                 "erase({-1 2 max min}) throws IndexOutOfBounds", "scratch({-1 12 max min}) throws IndexOutOfBounds",
                 "saveSnapshot({-1 2 max min}) throws IndexOutOfBounds",
                 "restoreSnapshot({-1 2 max min}) throws IndexOutOfBounds", "entry(0, 1, 0) = -1", "where(0, 2) = -1",

@@ -20,7 +20,8 @@ public final class TextSentenceTest {
                 "place(*) = -1 -1 -1 -1 -1 -1 -1 -1", "file(0, 0) throws IndexOutOfBounds",
                 "session(0, 0) throws IndexOutOfBounds", "errorPosition() = -1", "undo() = -1",
                 "restoreSnapshot({0 1}) throws IllegalState", "whyNot(*) = 1 1 2", "share() = 1/1")
-            .on("", "parse({1 20}) throws IllegalArgument", "append(0x20202020, 0x20202020, 0x20202020, 0x20202020, 0x20202020) = 20")
+            .on("", "parse({1 20}) throws IllegalArgument",
+                "append(0x20202020, 0x20202020, 0x20202020, 0x20202020, 0x20202020) = 20")
             .on("", "find() = -1", "parse(0) = 1", "errorPosition() = 0")
             // A disc of the same text has nothing else, whatever was there before.
             .on("disc 20 4;file a;bad 3;write a 2 1;close;", "scratch(0)", "setScan(true)", "parse \"disc 8 0;\" = 0",
@@ -47,7 +48,8 @@ public final class TextSentenceTest {
             .on("", "append \"disc 12 0;\"", "append(0x20202020, 0x20202020, 0x20202020, 0x20202020, 0x20202020) = 40",
                 "27 times: append(0x20202020, 0x20202020, 0x20202020, 0x20202020, 0x20202020)",
                 "append(0x20202020, 0x20202020, 0x20202020, 0x20202020, 0x20202020) = 600", "append(0, 0, 0, 0, 0) = -1",
-                "append(0x3b3b3b3b, 0, 0, 0, 0) = -1", "parse(601) throws IllegalArgument", "parse(600) = 0", "size(0) = 12",
+                "append(0x3b3b3b3b, 0, 0, 0, 0) = -1", "parse(601) throws IllegalArgument", "parse(600) = 0",
+                "size(0) = 12",
                 "append(0, 0, 0, 0, 0) = 20", "append(0, 0, 0, 0, 0) = 40");
     }
 
@@ -61,9 +63,20 @@ public final class TextSentenceTest {
         Sentence.of("Promise 3", "On success the described disc replaces the current one.")
             .on("disc 20 4;file a;bad 0;write a 3 1;close;write a 1 2;", "scratch({1 9 17})", "setScan(true)",
                 "parse \"disc 16 2;file b;file a;bad 4;write a 1 7;\" = 0", "size(*) = 16 2 2 1 1 2 1 1 1 1 0 0 1",
-                "find \"a\" = 1", "find \"b\" = 0", "session(0, *) = 0 0 1 1 -1 0 -1 1 0", "session(1, 0) throws IndexOutOfBounds",
+                "find \"a\" = 1", "find \"b\" = 0", "session(0, *) = 0 0 1 1 -1 0 -1 1 0",
+                "session(1, 0) throws IndexOutOfBounds",
                 "block(*, 0) = 1 0 0 0 0 0 0 0 0 0 0 0 0 0 0 0", "block(*, 1) = 0 0 0 0 1 0 0 0 0 0 0 0 0 0 0 0",
-                "block(*, 2) = 0 0 0 0 0 0 0 0 0 0 0 0 0 0 0 0", "file(*, 2) = -1 0", "file(1, *) = 1 1 0 1 7 0 1");
+                "block(*, 2) = 0 0 0 0 0 0 0 0 0 0 0 0 0 0 0 0", "file(*, 2) = -1 0", "file(1, *) = 1 1 0 1 7 0 1")
+            // Nothing of a disc that was replaced comes back with a later one.
+            .on("disc 12 4;file a;file b;write a 2 1;close;write b 1 2;", "scratch({0 5 9})", "setScan(true)",
+                "parse \"disc 12 4;file c;bad 0;write c 3 1;close;\" = 0", "scratch({1 2 6 9})", "setScan(true)",
+                "parse \"disc 12 4;file a;bad 11;\" = 0", "size(*) = 12 4 1 0 0 4 1 0 0 0 0 0 0",
+                "block(*, 0) = 0 0 0 0 0 0 0 0 0 0 0 0", "block(*, 1) = 0 0 0 0 0 0 0 0 0 0 0 1",
+                "block(*, 2) = 0 0 0 0 0 0 0 0 0 0 0 0", "block(*, 3) = -1 -1 -1 -1 -1 -1 -1 -1 -1 -1 -1 -1",
+                "block(*, 4) = -1 -1 -1 -1 -1 -1 -1 -1 -1 -1 -1 -1", "block(*, 5) = -1 -1 -1 -1 -1 -1 -1 -1 -1 -1 -1 -1",
+                "block(*, 6) = -1 -1 -1 -1 -1 -1 -1 -1 -1 -1 -1 -1", "place(*) = -1 -1 -1 -1 -1 -1 -1 -1 -1 -1 -1 -1",
+                "find \"c\" = -1", "write(0, 1, 5) = 0", "file(0, *) = 1 1 0 1 5 0 1",
+                "session(0, *) = 0 0 1 1 -1 0 -1 1 0");
         Sentence.of("Promise 3", "On a parse error nothing changes except that the whole buffer is emptied; it is also empty "
             + "after a success.")
             .on("disc 20 2;file a;write a 1 1;close;", "write(0, 2, 2)", "setScan(true)", "saveSnapshot(1)",
@@ -71,8 +84,10 @@ public final class TextSentenceTest {
                 "parse({1 20}) throws IllegalArgument", "size(*) = 20 2 1 2 4 2 0 1 1 1 1 2 2", "block(0, {0 1}) = 1 0",
                 "find \"a\" = 0", "find \"b\" = -1", "file(0, *) = 1 1 1 2 2 1 2", "session(*, 0) = 1 0", "undo() = 1",
                 "restoreSnapshot(1) = 2")
-            .on("disc 20 2;file a;", "append(0, 0, 0, 0, 0) = 20", "parse(0) = 1", "append(0, 0, 0, 0, 0) = 20", "find() = -1",
-                "append \"disc 9 0;disc 8\"", "parse(9) = 0", "parse(1) throws IllegalArgument", "append(0, 0, 0, 0, 0) = 20");
+            .on("disc 20 2;file a;", "append(0, 0, 0, 0, 0) = 20", "parse(0) = 1", "append(0, 0, 0, 0, 0) = 20",
+                "find() = -1",
+                "append \"disc 9 0;disc 8\"", "parse(9) = 0", "parse(1) throws IllegalArgument",
+                "append(0, 0, 0, 0, 0) = 20");
         Sentence.of("Promise 3", "- `length`: 0 to the length of the buffer")
             .on("", "parse(0) = 1", "append \"disc 8 0;\"", "parse(20) = 0", "append \"disc 9 0;\"",
                 "append(0x20202020, 0x20202020, 0x20202020, 0x20202020, 0x20202020) = 40", "parse(40) = 0", "size(0) = 9");
@@ -112,7 +127,8 @@ public final class TextSentenceTest {
         size("3 sessions,")
             .on("disc 40 0;file a;", "size(3) = 0", "write(0, 1, 1)", "size(3) = 1", "crash()", "recover()", "size(3) = 2",
                 "10 times: write(0, 1, 1); close()", "size(3) = 12");
-        size("4 next,").on("disc 8 2;file a;bad 1;", "size(4) = 0", "write(0, 2, 1)", "size(4) = 2", "close()", "size(4) = 3",
+        size("4 next,").on("disc 8 2;file a;bad 1;", "size(4) = 0", "write(0, 2, 1)", "size(4) = 2", "close()",
+                "size(4) = 3",
             "write(0, 2, 1)", "close()", "size(4) = 6");
         size("5 blocks of the spare area that are empty,")
             .on("disc 12 4;file a;bad 0;bad 2;bad 8;", "size(5) = 4", "write(0, 1, 1)", "size(5) = 2", "scratch(10)",
@@ -138,7 +154,8 @@ public final class TextSentenceTest {
             .on("", "size(11) = 0", "9 times: setScan(true)", "size(11) = 9", "2 times: scratch(0)", "size(11) = 10",
                 "undo() = 9", "size(11) = 9", "saveSnapshot(0)", "size(11) = 9", "restoreSnapshot(0)", "size(11) = 0");
         size("12 versions")
-            .on("disc 20 0;file a;write a 1 1;", "size(12) = 1", "erase(0)", "size(12) = 1", "write(0, 2, 1)", "size(12) = 2",
+            .on("disc 20 0;file a;write a 1 1;", "size(12) = 1", "erase(0)", "size(12) = 1", "write(0, 2, 1)",
+                "size(12) = 2",
                 "crash()", "size(12) = 2", "recover()", "size(12) = 2", "undo()", "undo()", "undo()", "size(12) = 1");
         size("Throws `IllegalArgumentException` if what is out of range")
             .on("", "size({-1 13 max min}) throws IllegalArgument", "size({0 12}) = 8 0");
@@ -155,7 +172,8 @@ public final class TextSentenceTest {
                 "find \"z" + " ".repeat(598) + "z\" = -1");
         Sentence.of("Promise 6", "The buffer is empty afterwards.")
             .on("disc 8 0;file ab;", "find \"ab\" = 0", "parse(1) throws IllegalArgument", "find \"b\" = -1",
-                "parse(1) throws IllegalArgument", "append(0, 0, 0, 0, 0) = 20", "find() = -1", "append(0, 0, 0, 0, 0) = 20",
+                "parse(1) throws IllegalArgument", "append(0, 0, 0, 0, 0) = 20", "find() = -1",
+                "append(0, 0, 0, 0, 0) = 20",
                 "find() = -1", "find \"ab\" = 0", "find() = -1");
         Sentence.of("Promise 6", "Returns the file; NONE if there is none.")
             .on("disc 8 0;file ab;file c;", "find \"ab\" = 0", "find \"c\" = 1", "find \"b\" = -1", "find \"abc\" = -1",
