@@ -246,8 +246,9 @@ public final class ChangeSentenceTest {
                 "entry(0, 0, *) = 4 0 0 2 7", "entry(0, 1, *) = 0 1 2 1 1", "entry(1, 0, *) = 2 -1 -1 0 -1",
                 "entry(1, 1, *) = 1 5 8 1 8", "file(*, 6) = 1 2 1 1 1", "file(*, 2) = 1 5 -1 4 0", "block(*, 2) = 0 0 0 0",
                 "block(*, 3) = 0 0 0 0 0 0 0 0 1 -1 -1", "block(*, 4) = 0 0 1 2 3 4 -1 -1 5 -1 -1",
-                "block(*, 5) = 0 1 0 0 0 0 0 1 0 -1 -1", "block(26, *) = 0 0 0 -1 -1 -1 -1", "scratch(7)",
-                "session(0, 5) = 0");
+                "block(*, 5) = 0 1 0 0 0 0 0 1 0 -1 -1", "block(26, *) = 0 0 0 -1 -1 -1 -1", "entry(0, 2, *) = 1 2 3 1 1",
+                "scratch(7)", "session(0, 5) = 0", "crash() = 1", "couldRecover() = 1", "recover() = 1",
+                "entry(2, 0, *) = 1 5 8 1 8");
         Sentence.of(heading, NO_SLOT + " (checked first)").on("", "restoreSnapshot({-1 2 max min}) throws IndexOutOfBounds",
             "saveSnapshot({0 1})", "restoreSnapshot({-1 2 max min}) throws IndexOutOfBounds");
         Sentence.of(heading, "Throws `IllegalStateException` if the slot is empty")

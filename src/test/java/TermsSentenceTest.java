@@ -115,7 +115,12 @@ public final class TermsSentenceTest {
             .on("", "parse \"disc 8 0;\" = 0", "size(1) = 0", "parse \"disc 8 4;\" = 0", "size(1) = 4",
                 "parse \"disc 8 5;\" = 3 7", "parse \"disc 9 4;\" = 0", "parse \"disc 9 5;\" = 3 7",
                 "parse \"disc 10 5;\" = 0", "size(1) = 5", "parse \"disc 10 6;\" = 3 8");
+        StringBuilder all = new StringBuilder();
+        for (int block = 0; block < 96; block++) {
+            all.append("bad").append(block).append(';');
+        }
         of("block 0 to blocks - 1,")
+            .on("disc96 16;" + all, "size({5 6}) = 16 96", "block({0 79 80 95}, 1) = 1 1 1 1")
             .on("disc 8 0;bad 0;bad 7;", "block(*, 1) = 1 0 0 0 0 0 0 1")
             .on("disc 8 4;bad 4;bad 7;", "block(*, 1) = 0 0 0 0 1 0 0 1")
             .on("", "parse \"disc 8 0;bad 8;\" = 3 13", "parse \"disc 8 4;bad 8;\" = 3 13",
