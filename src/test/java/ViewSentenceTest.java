@@ -323,7 +323,10 @@ public final class ViewSentenceTest {
                 "couldRecover() = 0", "write(0, 1, 1)", "couldRecover() = 0", "crash()", "couldRecover() = 1",
                 "write(0, 1, 1)",
                 "couldRecover() = 0", "close()", "couldRecover() = 0")
-            .on("disc 30 0;file a;write a 1 1;close;erase a;", "crash()", "couldRecover() = 0");
+            .on("disc 30 0;file a;write a 1 1;close;erase a;", "crash()", "couldRecover() = 0")
+            // No other reason against recover makes it 0.
+            .on("disc 40 0;file a;", "12 times: write(0, 1, 1); crash()", "whyNot(2) = 3", "couldRecover() = 1")
+            .on("disc 8 0;file a;write a 1 1;bad 1;", "crash()", "whyNot(2) = 5", "couldRecover() = 1");
     }
 
     private static void promise17() {
