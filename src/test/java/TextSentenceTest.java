@@ -166,7 +166,9 @@ public final class TextSentenceTest {
             + "anything else in the buffer there is none).")
             .on("disc 8 0;file ab;file abcdefgh;file a;file z;",
                 "find \"ab\" = 0", "find \"abcdefgh\" = 1", "find \"a\" = 2", "find \"z" + " ".repeat(599) + "\" = 3",
-                "find \" ab\" = -1", "find \" z\" = -1", "find \"ab ab\" = -1", "find \"ab\n\" = -1", "find \"ab;\" = -1", "find \"ab7\" = -1",
+                "find \" ab\" = -1", "find \" z\" = -1",
+                // To the base 27, in 64 bits, this is "a" once more.
+                "find \"dnxhqojvfouuvz\" = -1", "find \"ab ab\" = -1", "find \"ab\n\" = -1", "find \"ab;\" = -1", "find \"ab7\" = -1",
                 "find \"7ab\" = -1", "find \"aB\" = -1", "find \"ab                       x\" = -1", "find \"a b\" = -1",
                 "find \"ab\u0000\" = -1", "find \"abcdefghi\" = -1", "find \"abcdefgh i\" = -1",
                 "find \"z" + " ".repeat(598) + "z\" = -1");
