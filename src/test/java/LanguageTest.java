@@ -1,3 +1,4 @@
+import com.sun.source.tree.ArrayAccessTree;
 import com.sun.source.tree.AssertTree;
 import com.sun.source.tree.BinaryTree;
 import com.sun.source.tree.CatchTree;
@@ -12,11 +13,13 @@ import com.sun.source.tree.LiteralTree;
 import com.sun.source.tree.MemberReferenceTree;
 import com.sun.source.tree.MethodInvocationTree;
 import com.sun.source.tree.MethodTree;
+import com.sun.source.tree.NewArrayTree;
 import com.sun.source.tree.NewClassTree;
 import com.sun.source.tree.SynchronizedTree;
 import com.sun.source.tree.ThrowTree;
 import com.sun.source.tree.Tree;
 import com.sun.source.tree.TryTree;
+import com.sun.source.tree.TypeCastTree;
 import com.sun.source.tree.VariableTree;
 import com.sun.source.util.JavacTask;
 import com.sun.source.util.TreePath;
@@ -62,6 +65,12 @@ public final class LanguageTest extends TreePathScanner<Void, Void> {
         "Arrays", Set.of("copyOf", "copyOfRange", "fill"));
     private static final Set<String> NUMBERS = Set.of("Integer", "Long", "Math");
     private static final Set<String> OPEN = Set.of("Iterator", "Iterable", "Comparable", "Enum", "Array");
+
+    // These look at the index themselves; nothing else in the file takes an element of a row.
+    private static final Set<String> ROWS = Set.of("at", "isSet", "put", "mark", "fill", "copy", "indexOf", "storeIn",
+        "loadFrom");
+    // It makes the discs that are kept, one for each place.
+    private static final String MAKER = "storeIn";
 
     private final Trees trees;
     private final LineMap lines;
@@ -205,6 +214,7 @@ public final class LanguageTest extends TreePathScanner<Void, Void> {
         String name = made.getEnclosingElement().getSimpleName().toString();
         noteCall(made);
         boolean thrown = THROWN.contains(name);
+        rule(12, tree, "new " + name + " in a call", thrown || mayMake());
         rule(4, tree, "new " + name, isOwn(made) || thrown || isAllowed(name, "<init>"));
         rule(6, tree, "an exception has at most a text", !thrown || tree.getArguments().size() <= 1);
         for (ExpressionTree argument : thrown ? tree.getArguments() : List.<ExpressionTree>of()) {
@@ -217,14 +227,63 @@ public final class LanguageTest extends TreePathScanner<Void, Void> {
         return element instanceof VariableElement field && field.getConstantValue() != null;
     }
 
+    /** Whether what is made here is made for a whole object, or for a place that keeps it. */
+    private boolean mayMake() {
+        MethodTree around = methodAround();
+        return around == null || around.getReturnType() == null || around.getName().contentEquals(MAKER);
+    }
+
+    @Override
+    public Void visitNewArray(NewArrayTree tree, Void unused) {
+        rule(12, tree, "an array is made in a call", mayMake());
+        for (ExpressionTree length : tree.getDimensions()) {
+            boolean written = isNumberAboveZero(length) || length instanceof BinaryTree product
+                && product.getKind() == Tree.Kind.MULTIPLY && isNumberAboveZero(product.getLeftOperand())
+                && isNumberAboveZero(product.getRightOperand());
+            rule(7, length, "the length of an array is made of constants above 0", written);
+        }
+        return super.visitNewArray(tree, unused);
+    }
+
+    @Override
+    public Void visitArrayAccess(ArrayAccessTree tree, Void unused) {
+        MethodTree around = methodAround();
+        rule(7, tree, "an element is taken by a method that looks at the index",
+            around != null && ROWS.contains(around.getName().toString()));
+        return super.visitArrayAccess(tree, unused);
+    }
+
+    @Override
+    public Void visitTypeCast(TypeCastTree tree, Void unused) {
+        rule(7, tree, "only numbers are cast", type(tree).getKind().isPrimitive());
+        return super.visitTypeCast(tree, unused);
+    }
+
+    private boolean isNumberAboveZero(ExpressionTree tree) {
+        Object value = tree instanceof LiteralTree literal ? literal.getValue()
+            : element(tree) instanceof VariableElement field ? field.getConstantValue() : null;
+        return value instanceof Integer number && number > 0;
+    }
+
+    private void checkDivisor(Tree tree, ExpressionTree divisor) {
+        boolean real = type(divisor).getKind() == TypeKind.DOUBLE;
+        rule(7, tree, "a divisor is a constant above 0", real || isNumberAboveZero(divisor));
+    }
+
     @Override
     public Void visitBinary(BinaryTree tree, Void unused) {
+        if (tree.getKind() == Tree.Kind.DIVIDE || tree.getKind() == Tree.Kind.REMAINDER) {
+            checkDivisor(tree, tree.getRightOperand());
+        }
         rule(10, tree, "texts are not joined by +", !type(tree).toString().equals("java.lang.String"));
         return super.visitBinary(tree, unused);
     }
 
     @Override
     public Void visitCompoundAssignment(CompoundAssignmentTree tree, Void unused) {
+        if (tree.getKind() == Tree.Kind.DIVIDE_ASSIGNMENT || tree.getKind() == Tree.Kind.REMAINDER_ASSIGNMENT) {
+            checkDivisor(tree, tree.getExpression());
+        }
         rule(10, tree, "texts are not joined by +=", !type(tree.getVariable()).toString().equals("java.lang.String"));
         return super.visitCompoundAssignment(tree, unused);
     }
